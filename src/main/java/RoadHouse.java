@@ -237,7 +237,7 @@ public final class RoadHouse {
         return x == 0 ? 1 : x;
     }
 
-    /** A whole number of either sign, in limbs of 30 bits; its room is fixed when it is made, so that no call makes objects. */
+    /** A whole number of either sign, in limbs of 30 bits; its room is fixed, so that no call has to make objects. */
     private static final class Big {
         static final long BASE = 1L << 30;
         static final long LOW = BASE - 1;
@@ -295,16 +295,9 @@ public final class RoadHouse {
             return sign * compareSize(o);
         }
 
-        void add(Big o) {
-            join(o, o.sign);
-        }
-
-        void sub(Big o) {
-            join(o, -o.sign);
-        }
-
-        /** Adds the size of a number with a sign of its own. */
-        private void join(Big o, int other) {
+        /** Adds a number, so many times: 1 or - 1. */
+        void add(Big o, int times) {
+            int other = times * o.sign;
             boolean less = compareSize(o) < 0;
             Big big = less ? o : this;
             Big small = less ? this : o;
@@ -375,7 +368,7 @@ public final class RoadHouse {
             return (int) rest;
         }
 
-        /** Divides this by v, which is not 0, cut off towards 0: q is what comes, the rest stays here; s is a place to work. */
+        /** Divides this by v (not 0), cut off towards 0: q is what comes, the rest stays here; s is a place to work. */
         void divide(Big v, Big q, Big s) {
             int n = v.len;
             int m = len;
@@ -517,7 +510,7 @@ public final class RoadHouse {
         void add(long n, long d) {
             x.product(up, d);
             y.product(low, n);
-            x.add(y);
+            x.add(y, 1);
             up.copy(x);
             x.product(low, d);
             low.copy(x);
@@ -527,7 +520,7 @@ public final class RoadHouse {
         void add(Big n, Big d) {
             x.product(up, d);
             y.product(low, n);
-            x.add(y);
+            x.add(y, 1);
             up.copy(x);
             x.product(low, d);
             low.copy(x);
@@ -541,7 +534,7 @@ public final class RoadHouse {
             low.copy(x);
         }
 
-        /** The parts by which fractions are told: -1 the sign, then eighteen digits of the upper and the lower part in turn. */
+        /** As fractions are told: part -1 the sign, then eighteen digits of the upper and the lower part in turn. */
         long part(int part) {
             if (part < -1) {
                 return BAD;
@@ -696,11 +689,7 @@ public final class RoadHouse {
             marks[cell] = marks[cell] & ~(3 << 2 * person) | kind << 2 * person;
             int persons = 0;
             for (int p = 0; p < 8; p++) {
-                boolean has = false;
-                for (int k = 0; k < CELLS && !has; k++) {
-                    has = (marks[k] >> 2 * p & 3) != 0;
-                }
-                persons += has ? 1 : 0;
+                persons += (marks[cell] >> 2 * p & 3) != 0 ? 1 : 0;
             }
             return persons;
         }
@@ -1147,19 +1136,16 @@ public final class RoadHouse {
                 mostRow = Math.min(mostRow, row - 1);
             }
             long newCost = cost[label] + Way.LENGTH[heading] * price[cell];
-            for (int r = leastRow; r <= mostRow; r++) {
-                offerHeadings(label(from, 0, r, shareBefore), heading, newCost, count[label] + 1, onBridge || row > 0);
+            long newCount = count[label] + 1;
+            for (int h = 0; h < Way.NO_HEADING && leastRow <= mostRow; h += 3 - grid.reach) {
+                if (grid.turnKept(h, heading, onBridge || row > 0)) {
+                    for (int r = leastRow; r <= mostRow; r++) {
+                        offer(label(from, h, r, shareBefore), newCost, newCount + (h == heading ? 0 : A_TURN));
+                    }
+                }
             }
             if (from == start && leastRow <= mostRow) {
-                offer(label(from, Way.NO_HEADING, 0, shareBefore), newCost, count[label] + 1);
-            }
-        }
-
-        private void offerHeadings(int first, int heading, long newCost, long newCount, boolean straight) {
-            for (int h = 0; h < Way.NO_HEADING; h += 3 - grid.reach) {
-                if (grid.turnKept(h, heading, straight)) {
-                    offer(first + h * 4 * kinds, newCost, newCount + (h == heading ? 0 : A_TURN));
-                }
+                offer(label(from, Way.NO_HEADING, 0, shareBefore), newCost, newCount);
             }
         }
 
@@ -1301,11 +1287,6 @@ public final class RoadHouse {
             return week >= 0 && week < WEEKS;
         }
 
-        /** Pits stand behind the cuts, wherever these end: a new cut moves their numbers, and the plan is gone. */
-        private int pitOf(int source) {
-            return source - cuts();
-        }
-
         int addCut(int volume, int kind, int week, int metre) {
             if (volume < 1 || volume > 1000000 || kind < 0 || kind > 3 || !isWeek(week) || !isMetre(metre)
                     || cuts() >= MOST_CUTS) {
@@ -1414,7 +1395,7 @@ public final class RoadHouse {
         }
 
         private int metreOf(int source) {
-            return source < cuts() ? cut[source][3] : pit[pitOf(source)][0];
+            return source < size[0] ? cut[source][3] : pit[source - size[0]][0];
         }
 
         private boolean serves(int source, int f) {
@@ -1441,7 +1422,7 @@ public final class RoadHouse {
                     best = Math.min(best, Math.min(there, back));
                 }
             }
-            return best + (s < cuts() ? 0 : pit[pitOf(s)][1]);
+            return best + (s < cuts() ? 0 : pit[s - cuts()][1]);
         }
 
         /** Makes ready for planning: what a unit costs, - 1 where a source does not serve. */
@@ -1842,15 +1823,15 @@ public final class RoadHouse {
         static final int REACTION = 3;
 
         private int beams = 1;
-        private final int[] length = {1, 1, 1};
-        private final int[] stiff = {1, 1, 1};
+        /** Of each beam its length and its stiffness. */
+        private final int[][] size = {{1, 1}, {1, 1}, {1, 1}};
         private final boolean[] hinged = new boolean[2 * MOST_BEAMS];
         /** Whether moves are held. */
         private final boolean[] held = new boolean[MOVES];
         private final int[] settled = new int[MOST_BEAMS + 1];
-        private final int[][] row = new int[MOST_ROWS][3];
+        /** Rows that are told: what, of what, its place; behind them a place for one that is only asked. */
+        private final int[][] row = new int[MOST_ROWS + 1][3];
         private int rows;
-        private final int[] asked = new int[3];
         private final char[] text = new char[MOST_SIGNS];
         private int signs;
         private boolean fresh;
@@ -1909,7 +1890,7 @@ public final class RoadHouse {
 
         /** The length of the beam behind a place, all places counted in order; 0 behind the last one. */
         int lengthAt(int place) {
-            return place >= 0 && place < 4 * beams ? length[place / 4] : 0;
+            return place >= 0 && place < 4 * beams ? size[place / 4][0] : 0;
         }
 
         void forgetText() {
@@ -1992,9 +1973,9 @@ public final class RoadHouse {
             for (int i = 1; i < signs && beams < MOST_BEAMS; i++) {
                 hinged[2 * beams] = signAt(i) == 'h';
                 i += hinged[2 * beams] ? 1 : 0;
-                length[beams] = numberAt(i);
+                size[beams][0] = numberAt(i);
                 i += numberAt(i) > 9 ? 3 : 2;
-                stiff[beams] = numberAt(i);
+                size[beams][1] = numberAt(i);
                 i += numberAt(i) > 9 ? 2 : 1;
                 hinged[2 * beams + 1] = signAt(i) == 'h';
                 i += hinged[2 * beams + 1] ? 1 : 0;
@@ -2018,8 +1999,8 @@ public final class RoadHouse {
             if (newLength < 1 || newLength > 12 || newStiff < 1 || newStiff > 12) {
                 return false;
             }
-            length[k] = newLength;
-            stiff[k] = newStiff;
+            size[k][0] = newLength;
+            size[k][1] = newStiff;
             fresh = false;
             return true;
         }
@@ -2120,14 +2101,14 @@ public final class RoadHouse {
         private void gatherForces() {
             scale = 1;
             for (int b = 0; b < beams; b++) {
-                scale = scale / common(scale, length[b]) * length[b];
+                scale = scale / common(scale, size[b][0]) * size[b][0];
             }
             scale = scale * scale * scale;
             for (int r = 0; r < MOVES; r++) {
                 Arrays.fill(force[r], 0);
             }
             for (int b = 0; b < beams; b++) {
-                long by = scale / (length[b] * length[b] * length[b]) * stiff[b];
+                long by = scale / (size[b][0] * size[b][0] * size[b][0]) * size[b][1];
                 for (int r = 0; r < 4; r++) {
                     for (int c = 0; c < 4; c++) {
                         force[2 * b + r][2 * b + c] += by * endForce(b, r, c);
@@ -2145,7 +2126,7 @@ public final class RoadHouse {
             if (r % 2 == 0 || c % 2 == 0 || hinged[2 * b] || hinged[2 * b + 1]) {
                 return bent;
             }
-            return bent + (r == c ? 1 : -1) * length[b] * length[b];
+            return bent + (r == c ? 1 : -1) * size[b][0] * size[b][0];
         }
 
         private int shearShare(int b, int end) {
@@ -2154,9 +2135,9 @@ public final class RoadHouse {
             int stiffEnds = (left ? 1 : 0) + (right ? 1 : 0);
             switch (end) {
                 case 0: return stiffEnds;
-                case 1: return left ? length[b] : 0;
+                case 1: return left ? size[b][0] : 0;
                 case 2: return -stiffEnds;
-                default: return right ? length[b] : 0;
+                default: return right ? size[b][0] : 0;
             }
         }
 
@@ -2203,7 +2184,7 @@ public final class RoadHouse {
                 aid[2].product(at, cell(p, p));
                 if (other) {
                     aid[3].product(aid[1], cell(p, c));
-                    aid[2].sub(aid[3]);
+                    aid[2].add(aid[3], -1);
                 }
                 aid[2].divide(aid[0], aid[4], aid[5]);
                 at.copy(aid[4]);
@@ -2245,7 +2226,7 @@ public final class RoadHouse {
         /** What a load inside a beam does at its ends while these are held, in parts. */
         private int fixedForce(int b, int end, int place) {
             int c = 4 - place;
-            int l = length[b];
+            int l = size[b][0];
             int shear;
             int left = 0;
             int right = 0;
@@ -2277,7 +2258,7 @@ public final class RoadHouse {
                 return;
             }
             boolean here = member == loadBeam && inside(loadPlace);
-            long l = length[member];
+            long l = size[member][0];
             long cube = l * l * l;
             int behind = here ? Math.max(place - loadPlace, 0) : 0;
             if (what == 1) {
@@ -2292,7 +2273,7 @@ public final class RoadHouse {
             } else {
                 addMoment(member, here ? loadPlace : 0, 48 * place * (4 - place) * l * l);
                 addShear(member, here ? loadPlace : 0, 4 * (16 * place - place * place * place) * cube);
-                long e = PARTS * cube * stiff[member];
+                long e = PARTS * cube * size[member][1];
                 counts[2 * member] += e * (1536 - 384 * place);
                 counts[2 * member + 2] += e * 384 * place;
                 int c = 4 - loadPlace;
@@ -2304,21 +2285,21 @@ public final class RoadHouse {
         /** Adds the shear at the left end of a beam, times PARTS length^3 and a number; a load's place 0: none is inside. */
         private void addShear(int b, int loadPlace, long by) {
             for (int c = 0; c < 4; c++) {
-                counts[2 * b + c] -= by * PARTS * stiff[b] * endForce(b, 0, c);
+                counts[2 * b + c] -= by * PARTS * size[b][1] * endForce(b, 0, c);
             }
-            long l = length[b];
+            long l = size[b][0];
             counts[MOVES] -= loadPlace > 0 ? by * l * l * l * fixedForce(b, 0, loadPlace) : 0;
         }
 
         private void addMoment(int b, int loadPlace, long by) {
             for (int c = 0; c < 4; c++) {
-                counts[2 * b + c] += by * PARTS * stiff[b] * endForce(b, 1, c);
+                counts[2 * b + c] += by * PARTS * size[b][1] * endForce(b, 1, c);
             }
-            long l = length[b];
+            long l = size[b][0];
             counts[MOVES] += loadPlace > 0 ? by * l * l * l * fixedForce(b, 1, loadPlace) : 0;
         }
 
-        /** The value that is asked (what, of what, place) under a load: its upper part into v; lowerPart() tells the lower one. */
+        /** A value (what, of what, place) under a load: its upper part into v; lowerPart() tells the lower one. */
         private void value(Big v, int[] which, int loadBeam, int loadPlace) {
             setLoad(loadBeam, loadPlace);
             setCounts(which[0], which[1], which[2], loadBeam, loadPlace);
@@ -2331,16 +2312,16 @@ public final class RoadHouse {
                 for (int c = 0; c < free; c++) {
                     if (load[moveOf[c]] != 0) {
                         aid[2].product(cell(r, free + c), load[moveOf[c]]);
-                        aid[1].add(aid[2]);
+                        aid[1].add(aid[2], 1);
                     }
                 }
                 aid[2].product(aid[1], counts[moveOf[r]]);
-                v.add(aid[2]);
+                v.add(aid[2], 1);
             }
             aid[2].product(v, scale);
             aid[1].product(aid[0], PARTS);
             v.product(aid[1], counts[MOVES]);
-            v.add(aid[2]);
+            v.add(aid[2], 1);
         }
 
         /** The lower part of what value() told last. */
@@ -2364,7 +2345,7 @@ public final class RoadHouse {
             return told.part(part);
         }
 
-        /** The value of a row for a load at one of all places in order, times 1,000, cut off; NONE: it can not be so told. */
+        /** The value of a row for a load at one of all places in order, times 1,000, cut off; NONE: it is too long. */
         long thousandths(int r, int place) {
             prepare();
             if (!isTold(r) || loose || place < 0 || place > 4 * beams) {
@@ -2396,7 +2377,7 @@ public final class RoadHouse {
             shrinkPoints();
             told.set(0, 1);
             for (int q = 0; q < 4 * beams; q++) {
-                addPiece(point[q], point[q + 1], length[q / 4]);
+                addPiece(point[q], point[q + 1], size[q / 4][0]);
             }
             aid[2].product(told.low, aid[4]);
             told.low.product(aid[2], 8);
@@ -2425,12 +2406,12 @@ public final class RoadHouse {
             }
             if (a.sign >= 0 && b.sign >= 0) {
                 aid[1].copy(a);
-                aid[1].add(b);
+                aid[1].add(b, 1);
                 aid[2].set(1);
             } else {
                 Big more = a.sign > 0 ? a : b;
                 aid[2].copy(more);
-                aid[2].sub(a.sign > 0 ? b : a);
+                aid[2].add(a.sign > 0 ? b : a, -1);
                 aid[1].product(more, more);
             }
             aid[3].product(aid[1], l);
@@ -2438,10 +2419,12 @@ public final class RoadHouse {
             told.reduce();
         }
 
-        private void ask(int what, int member, int place) {
-            asked[0] = what;
-            asked[1] = member;
-            asked[2] = place;
+        private int[] asked(int what, int member, int place) {
+            int[] which = row[MOST_ROWS];
+            which[0] = what;
+            which[1] = member;
+            which[2] = place;
+            return which;
         }
 
         private boolean turned(int r) {
@@ -2453,8 +2436,7 @@ public final class RoadHouse {
                 for (int place = 0; place <= 4; place++) {
                     value(point[0], row[r], b, place);
                     lowerPart(point[1]);
-                    ask(MOVE, b, place);
-                    value(point[2], asked, row[r][1], row[r][2]);
+                    value(point[2], asked(MOVE, b, place), row[r][1], row[r][2]);
                     lowerPart(point[3]);
                     aid[2].product(point[0], point[3]);
                     aid[3].product(point[2], point[1]);
@@ -2477,9 +2459,8 @@ public final class RoadHouse {
                 lowerPart(point[2]);
                 for (int node = 0; node <= beams; node++) {
                     if (held[2 * node]) {
-                        ask(REACTION, node, 0);
-                        value(point[1], asked, member, q - 4 * member);
-                        point[0].add(point[1]);
+                        value(point[1], asked(REACTION, node, 0), member, q - 4 * member);
+                        point[0].add(point[1], 1);
                         lowerPart(point[2]);
                     }
                 }
@@ -2524,7 +2505,7 @@ public final class RoadHouse {
                     pull -= force[moveOf[c]][2 * k] * settled[k];
                 }
                 aid[2].product(cell(r, free + c), pull);
-                aid[1].add(aid[2]);
+                aid[1].add(aid[2], 1);
             }
             told.up.copy(aid[1]);
             told.low.copy(aid[0]);
@@ -2547,7 +2528,7 @@ public final class RoadHouse {
                     return sum;
                 case 4:
                     for (int b = 0; b < beams; b++) {
-                        sum += length[b];
+                        sum += size[b][0];
                     }
                     return sum;
                 default: return BAD;
@@ -2566,11 +2547,13 @@ public final class RoadHouse {
         static final int MOST_SIGNS = 100;
         static final int UNIT = 1000000;
         static final int NONE_YET = -1;
+        static final int AT = 0;
+        static final int ABOVE = 1;
+        static final int BELOW = 2;
 
         private int corners;
-        private final int[] at = new int[MOST_CORNERS];
-        private final int[] above = new int[MOST_CORNERS];
-        private final int[] below = new int[MOST_CORNERS];
+        /** Of each corner its place, and its value above and below. */
+        private final int[][] corner = new int[MOST_CORNERS][3];
         /** How many trains, lanes, cases there are, how many signs are collected, and how many places were tried. */
         private int trains;
         private int lanes;
@@ -2653,13 +2636,13 @@ public final class RoadHouse {
         }
 
         boolean addCorner(int where, int upper, int lower) {
-            if (where < 0 || where > 400 || corners > 0 && where <= at[corners - 1] || upper < -UNIT || upper > UNIT
+            if (where < 0 || where > 400 || corners > 0 && where <= corner[corners - 1][AT] || upper < -UNIT || upper > UNIT
                     || lower < 1 || lower > 1000 || corners >= MOST_CORNERS) {
                 return false;
             }
-            at[corners] = where;
-            above[corners] = upper;
-            below[corners] = lower;
+            corner[corners][AT] = where;
+            corner[corners][ABOVE] = upper;
+            corner[corners][BELOW] = lower;
             corners++;
             fresh = false;
             forgetRun();
@@ -2721,7 +2704,11 @@ public final class RoadHouse {
 
         /** What the value on a piece behind a corner is divided by. */
         private int pieceDivisor(int piece) {
-            return piece + 1 < corners ? below[piece] * below[piece + 1] * (at[piece + 1] - at[piece]) : below[piece];
+            int lower = corner[piece][BELOW];
+            if (piece + 1 >= corners) {
+                return lower;
+            }
+            return lower * corner[piece + 1][BELOW] * (corner[piece + 1][AT] - corner[piece][AT]);
         }
 
         /** All values of the row at whole places are whole in parts of one divisor; here it is found. */
@@ -2749,7 +2736,7 @@ public final class RoadHouse {
             prepare();
             told.set(0, 1);
             for (int k = 0; k + 1 < corners; k++) {
-                addPiece(k, (long) above[k] * below[k + 1], (long) above[k + 1] * below[k]);
+                addPiece(k, (long) corner[k][ABOVE] * corner[k + 1][BELOW], (long) corner[k + 1][ABOVE] * corner[k][BELOW]);
                 told.reduce();
             }
             number[4].copy(told.up);
@@ -2758,13 +2745,15 @@ public final class RoadHouse {
 
         /** Adds the area above 0 of a piece to what is told; a and b are the values at its ends, times both lower parts. */
         private void addPiece(int k, long a, long b) {
-            long length = at[k + 1] - at[k];
+            int[] left = corner[k];
+            int[] right = corner[k + 1];
+            long length = right[AT] - left[AT];
             if (a >= 0 && b >= 0) {
-                told.add((a + b) * length, 2L * below[k] * below[k + 1]);
+                told.add((a + b) * length, 2L * left[BELOW] * right[BELOW]);
             } else if (a > 0) {
-                told.add((long) above[k] * above[k] * below[k + 1] * length, 2 * below[k] * (a - b));
+                told.add((long) left[ABOVE] * left[ABOVE] * right[BELOW] * length, 2 * left[BELOW] * (a - b));
             } else if (b > 0) {
-                told.add((long) above[k + 1] * above[k + 1] * below[k] * length, 2 * below[k + 1] * (b - a));
+                told.add((long) right[ABOVE] * right[ABOVE] * left[BELOW] * length, 2 * right[BELOW] * (b - a));
             }
         }
 
@@ -2772,20 +2761,20 @@ public final class RoadHouse {
         private void addEffect(Big sum, int train, int s, boolean forward) {
             for (int k = 0; k < axles[train]; k++) {
                 int p = forward ? s - behind[train][k] : s + behind[train][k];
-                if (corners == 0 || p < at[0] || p > at[corners - 1]) {
+                if (corners == 0 || p < corner[0][AT] || p > corner[corners - 1][AT]) {
                     continue;
                 }
                 int piece = 0;
-                while (piece + 2 < corners && p > at[piece + 1]) {
+                while (piece + 2 < corners && p > corner[piece + 1][AT]) {
                     piece++;
                 }
-                long v = above[piece];
+                long v = corner[piece][ABOVE];
                 if (corners > 1) {
-                    v = (long) above[piece] * below[piece + 1] * (at[piece + 1] - p)
-                            + (long) above[piece + 1] * below[piece] * (p - at[piece]);
+                    v = (long) corner[piece][ABOVE] * corner[piece + 1][BELOW] * (corner[piece + 1][AT] - p)
+                            + (long) corner[piece + 1][ABOVE] * corner[piece][BELOW] * (p - corner[piece][AT]);
                 }
                 number[3].product(share[piece], v * load[train][k]);
-                sum.add(number[3]);
+                sum.add(number[3], 1);
             }
         }
 
@@ -2794,7 +2783,7 @@ public final class RoadHouse {
             int count = 0;
             for (int k = 0; k < axles[train]; k++) {
                 for (int c = 0; c < corners; c++) {
-                    count = listOnce(count, forward ? at[c] + behind[train][k] : at[c] - behind[train][k]);
+                    count = listOnce(count, forward ? corner[c][AT] + behind[train][k] : corner[c][AT] - behind[train][k]);
                 }
             }
             return count;
@@ -2895,7 +2884,7 @@ public final class RoadHouse {
             count = listOnce(count, most);
             for (int k = 0; k < axles[train]; k++) {
                 for (int c = 0; c < corners; c++) {
-                    int g = tail - at[c] - behind[train][k];
+                    int g = tail - corner[c][AT] - behind[train][k];
                     if (g >= least && g <= most) {
                         count = listOnce(count, g);
                     }
@@ -2954,11 +2943,11 @@ public final class RoadHouse {
         private long stretch(int k, int what) {
             int count = 0;
             for (int c = 0; c < corners && corners > 1; c++) {
-                boolean begins = c == 0 ? above[0] > 0 : above[c] > 0 && above[c - 1] <= 0;
+                boolean begins = c == 0 ? corner[0][ABOVE] > 0 : corner[c][ABOVE] > 0 && corner[c - 1][ABOVE] <= 0;
                 if (begins && count == k && (what == 0 || what == 2)) {
-                    return what == 0 ? crossing(Math.max(c - 1, 0), c) : c > 0 && above[c - 1] == 0 ? c - 1 : c;
+                    return what == 0 ? crossing(Math.max(c - 1, 0), c) : c > 0 && corner[c - 1][ABOVE] == 0 ? c - 1 : c;
                 }
-                boolean ends = above[c] > 0 && (c + 1 == corners || above[c + 1] <= 0);
+                boolean ends = corner[c][ABOVE] > 0 && (c + 1 == corners || corner[c + 1][ABOVE] <= 0);
                 if (ends && count == k && what == 1) {
                     return crossing(c, Math.min(c + 1, corners - 1));
                 }
@@ -2969,12 +2958,12 @@ public final class RoadHouse {
 
         /** Where the row comes to 0 between two corners, one of which is above 0, cut off. */
         private int crossing(int one, int other) {
-            long a = (long) above[one] * below[other];
-            long b = (long) above[other] * below[one];
+            long a = (long) corner[one][ABOVE] * corner[other][BELOW];
+            long b = (long) corner[other][ABOVE] * corner[one][BELOW];
             if (one == other || a == b) {
-                return at[one];
+                return corner[one][AT];
             }
-            return at[one] + (int) ((at[other] - at[one]) * a / (a - b));
+            return corner[one][AT] + (int) ((corner[other][AT] - corner[one][AT]) * a / (a - b));
         }
 
         private boolean collect(int u) {
@@ -3066,7 +3055,7 @@ public final class RoadHouse {
             }
             number[3].product(number[4], divisor());
             number[7].product(number[3], counted[k][1] * laneLow);
-            sum.add(number[7]);
+            sum.add(number[7], 1);
         }
 
         private void caseDivisor(Big low) {
@@ -3270,7 +3259,8 @@ public final class RoadHouse {
                 return false;
             }
             int middle = apart(points[count - 3], points[count - 2]);
-            return middle <= apart(points[count - 4], points[count - 3]) && middle <= apart(points[count - 2], points[count - 1]);
+            return middle <= apart(points[count - 4], points[count - 3])
+                    && middle <= apart(points[count - 2], points[count - 1]);
         }
 
         /** Takes the last but two and the last but one of the points away: how many there are then. */
@@ -4680,15 +4670,17 @@ public final class RoadHouse {
         static final int MOST_PENALTIES = 10;
         static final int MOST_OPEN = 100;
         static final int MONTHS = 12;
+        static final int KEPT = MONTHS;
         static final int FIRMS = 4;
         static final int MOST_THINGS = 30;
         static final int MOST_BRACKETS = 10;
         static final int LIMIT = 9999;
-        /** An item's row of numbers: its name's length, its name, its step, how many things, its things in the order of doing. */
+        /** An item's row of numbers: its name's length, its name, its step, its cents, its things as they are done. */
         static final int NAME = 1;
         static final int MOST_NAME = 8;
         static final int STEP = NAME + MOST_NAME;
-        static final int COUNT = STEP + 1;
+        static final int CENTS = STEP + 1;
+        static final int COUNT = CENTS + 1;
         static final int THINGS = COUNT + 1;
         static final int ITEM = THINGS + MOST_THINGS;
         /** What words are; letters, digits and other signs by the sign itself, none by 0. */
@@ -4709,7 +4701,6 @@ public final class RoadHouse {
         private int words;
         private final int[][] item = new int[MOST_ITEMS][ITEM];
         private int items;
-        private final int[] cents = new int[MOST_ITEMS];
         private final int[][] shape = new int[MOST_SHAPES][4];
         private int shapes;
         private final int[][] entry = new int[MOST_ENTRIES][6];
@@ -4717,8 +4708,8 @@ public final class RoadHouse {
         private int entries;
         private final int[][] change = new int[MOST_CHANGES][4];
         private int changes;
-        private final int[][] index = new int[MONTHS][2];
-        private final int[] keep = {0, 1};
+        /** The fraction of each month's index; behind them the one that is kept. */
+        private final int[][] index = new int[MONTHS + 1][2];
         private int backMonth = -1;
         private final int[][] penalty = new int[MOST_PENALTIES][3];
         private int penalties;
@@ -4736,6 +4727,7 @@ public final class RoadHouse {
                 index[m][0] = 1;
                 index[m][1] = 1;
             }
+            index[KEPT][1] = 1;
         }
 
         long answer(int call, int a, int b, int c, int d) {
@@ -4753,7 +4745,7 @@ public final class RoadHouse {
                 case 10: return addChange(a, b, c, d);
                 case 11: return setIndex(a, b, c) ? 1 : 0;
                 case 12: return setKeep(a, b) ? 1 : 0;
-                case 13: return isMonth(a) ? keptUpTo(a) - (backMonth >= 0 && a >= backMonth ? keptUpTo(backMonth) : 0) : BAD;
+                case 13: return isMonth(a) ? stillKept(a) : BAD;
                 case 14: return setBack(a);
                 case 15: return addPenalty(a, b, c) ? 1 : 0;
                 case 16: return isMonth(a) ? sumOfPay(a, 4) : BAD;
@@ -4815,12 +4807,15 @@ public final class RoadHouse {
         }
 
         private int lengthOf(int w) {
-            char kind = kindOf(w);
-            int length = 0;
-            for (int i = w < words ? word[w] : signs; i < signs && kindOfSign(text[i]) == kind; i++) {
-                length++;
+            if (w < 0 || w >= words) {
+                return 0;
             }
-            return kind == LETTERS || kind == DIGITS ? length : Math.min(length, 1);
+            char kind = kindOfSign(text[word[w]]);
+            int end = word[w] + 1;
+            while ((kind == LETTERS || kind == DIGITS) && end < signs && kindOfSign(text[end]) == kind) {
+                end++;
+            }
+            return end - word[w];
         }
 
         /** The number that a word is; - 1: it is none, or has more than four digits. */
@@ -4937,7 +4932,7 @@ public final class RoadHouse {
             return -1 - words;
         }
 
-        /** Of the signs that wait those that bind at least so strongly become things, back to a bracket: how many still wait. */
+        /** Signs that wait and bind at least so strongly become things, back to a bracket: how many still wait. */
         private int takeWaiting(int[] row, int waiting, int rank) {
             int left = waiting;
             while (left > 0 && rankOf((char) stack[left - 1]) >= rank && row[COUNT] < MOST_THINGS) {
@@ -4961,7 +4956,7 @@ public final class RoadHouse {
             return letter ? -c : 0;
         }
 
-        /** A measure of an item for a shape with an a; whether it is open stands in the row's last place. */
+        /** A measure of an item for a shape with an a; divided tells then whether it is open. */
         private long measure(int k, int[] of, int a) {
             int[] row = item[k];
             int left = 0;
@@ -5015,7 +5010,7 @@ public final class RoadHouse {
                 tellOpen(1, k, BAD);
                 return BAD;
             }
-            cents[k] = price;
+            item[k][CENTS] = price;
             return 1;
         }
 
@@ -5096,21 +5091,28 @@ public final class RoadHouse {
             entries++;
         }
 
-        /** The sum of entries of an item in a month, by what was measured, or by measuring all anew. */
-        private long quantity(int k, int month, boolean anew) {
+        private boolean isOf(int e, int k, int month) {
+            return entry[e][WHERE] == k && entry[e][MONTH] == month;
+        }
+
+        /** The sum of entries of an item in a month, by what was measured. */
+        private long quantity(int k, int month) {
             long sum = 0;
             for (int e = 0; e < entries; e++) {
-                int[] row = entry[e];
-                if (row[WHERE] != k || row[MONTH] != month) {
-                    continue;
+                sum += entry[e][WHERE] == k && entry[e][MONTH] == month ? measured[e] : 0;
+            }
+            return sum;
+        }
+
+        /** The same by measuring all anew. */
+        private long walked(int k, int month) {
+            long sum = 0;
+            for (int e = 0; e < entries; e++) {
+                if (isOf(e, k, month)) {
+                    int[] of = shape[entry[e][SHAPE]];
+                    sum += measure(k, of, entry[e][NEW_A]);
+                    sum -= entry[e][KIND] == 1 ? measure(k, of, entry[e][OLD_A]) : 0;
                 }
-                if (!anew) {
-                    sum += measured[e];
-                    continue;
-                }
-                int[] of = shape[row[SHAPE]];
-                sum += measure(k, of, row[NEW_A]);
-                sum -= row[KIND] == 1 ? measure(k, of, row[OLD_A]) : 0;
             }
             return sum;
         }
@@ -5120,12 +5122,11 @@ public final class RoadHouse {
                 return BAD;
             }
             if (part == 0) {
-                return quantity(k, month, anew);
+                return anew ? walked(k, month) : quantity(k, month);
             }
             int count = 0;
             for (int e = 0; e < entries; e++) {
-                int[] row = entry[e];
-                count += row[WHERE] == k && row[MONTH] == month && row[KIND] == part - 1 ? 1 : 0;
+                count += isOf(e, k, month) && entry[e][KIND] == part - 1 ? 1 : 0;
             }
             return count;
         }
@@ -5133,7 +5134,7 @@ public final class RoadHouse {
         boolean walksAgree() {
             for (int k = 0; k < items; k++) {
                 for (int month = 0; month < MONTHS; month++) {
-                    if (quantity(k, month, false) != quantity(k, month, true)) {
+                    if (quantity(k, month) != walked(k, month)) {
                         return false;
                     }
                 }
@@ -5142,7 +5143,7 @@ public final class RoadHouse {
         }
 
         private long rateOf(int k, int month) {
-            long rate = cents[k];
+            long rate = item[k][CENTS];
             for (int c = 0; c < changes; c++) {
                 int[] row = change[c];
                 if (row[0] == k && row[3] <= month && row[2] > 0) {
@@ -5155,14 +5156,14 @@ public final class RoadHouse {
         private long gross(int month) {
             long sum = 0;
             for (int k = 0; k < items; k++) {
-                sum += quantity(k, month, false) * rateOf(k, month);
+                sum += quantity(k, month) * rateOf(k, month);
             }
             return index[month][1] > 0 ? sum * index[month][0] / index[month][1] : 0;
         }
 
         private long kept(int month) {
             long all = gross(month);
-            return all > 0 && keep[1] > 0 ? all * keep[0] / keep[1] : 0;
+            return all > 0 && index[KEPT][1] > 0 ? all * index[KEPT][0] / index[KEPT][1] : 0;
         }
 
         private long keptUpTo(int month) {
@@ -5171,6 +5172,10 @@ public final class RoadHouse {
                 sum += kept(m);
             }
             return sum;
+        }
+
+        private long stillKept(int month) {
+            return keptUpTo(month) - (backMonth >= 0 && month >= backMonth ? keptUpTo(backMonth) : 0);
         }
 
         private long penaltiesOf(int month) {
@@ -5199,6 +5204,10 @@ public final class RoadHouse {
             return sum;
         }
 
+        private static boolean areTwice(int[] one, int[] other) {
+            return one[KIND] == 0 && other[KIND] == 0 && one[SHAPE] == other[SHAPE];
+        }
+
         private long twice(int k, int what) {
             if (k < 0 || what < 0 || what > 2) {
                 return BAD;
@@ -5206,7 +5215,7 @@ public final class RoadHouse {
             int seen = 0;
             for (int later = 0; later < entries; later++) {
                 for (int earlier = 0; earlier < later; earlier++) {
-                    if (entry[later][KIND] == 0 && entry[earlier][KIND] == 0 && entry[later][SHAPE] == entry[earlier][SHAPE]) {
+                    if (areTwice(entry[earlier], entry[later])) {
                         if (seen == k) {
                             return what == 0 ? entry[later][SHAPE] : entry[what == 1 ? earlier : later][WHERE];
                         }
@@ -5243,8 +5252,8 @@ public final class RoadHouse {
             if (above < 0 || above > below || below < 1 || below > 1000) {
                 return false;
             }
-            keep[0] = above;
-            keep[1] = below;
+            index[KEPT][0] = above;
+            index[KEPT][1] = below;
             return true;
         }
 
@@ -5320,7 +5329,7 @@ public final class RoadHouse {
 
         private boolean hasOther(int one) {
             for (int e = 0; e < entries; e++) {
-                if (e != one && entry[e][KIND] == 0 && entry[e][SHAPE] == entry[one][SHAPE]) {
+                if (e != one && areTwice(entry[e], entry[one])) {
                     return true;
                 }
             }
@@ -5347,7 +5356,7 @@ public final class RoadHouse {
                 long sum = 0;
                 long pay = 0;
                 for (int month = 0; month < MONTHS; month++) {
-                    long q = quantity(k, month, false);
+                    long q = quantity(k, month);
                     sum += q;
                     pay += q * rateOf(k, month);
                 }

@@ -13,6 +13,7 @@ public final class ContractOracleTest {
         Tree b;
     }
 
+    @SuppressWarnings("serial")
     static final class Wrong extends RuntimeException {
         final int word;
 
@@ -21,6 +22,7 @@ public final class ContractOracleTest {
         }
     }
 
+    @SuppressWarnings("serial")
     static final class DividesByNothing extends RuntimeException {
     }
 

@@ -323,7 +323,7 @@ public final class TrainsOracleTest {
             s.append('x');
             return at;
         }
-        s.setCharAt(at, (char) (c == ' ' ? 'x' : ' '));
+        s.setCharAt(at, c == ' ' ? 'x' : ' ');
         return at;
     }
 

@@ -404,10 +404,15 @@ public final class WayOracleTest {
                 break;
             case 5: {
                 int p = r.nextInt(8);
+                if (r.nextBoolean()) {
+                    px = 3;
+                    py = 2;
+                    cell = 27;
+                }
                 marks[p][cell] = r.nextInt(4);
                 int n = 0;
                 for (int k = 0; k < 8; k++) {
-                    n += Arrays.stream(marks[k]).anyMatch(v -> v != 0) ? 1 : 0;
+                    n += marks[k][cell] != 0 ? 1 : 0;
                 }
                 due(c, name, x, n, 13, p, px, py, marks[p][cell]);
                 break;
