@@ -1814,8 +1814,6 @@ public final class RoadHouse {
         static final int NOTHING = -2;
         /** Each node has two moves: 2 i how far it is down, 2 i + 1 how far it is turned. */
         static final int MOVES = 2 * (MOST_BEAMS + 1);
-        /** A row of beams that is not loose has at most so many moves that are not held. */
-        static final int MOST_FREE = 6;
         /** What loads do to the ends of a beam is whole in these parts. */
         static final int PARTS = 128;
         static final int ROOM = 160;
@@ -4683,7 +4681,10 @@ public final class RoadHouse {
         static final int COUNT = CENTS + 1;
         static final int THINGS = COUNT + 1;
         static final int ITEM = THINGS + MOST_THINGS;
-        /** What words are; letters, digits and other signs by the sign itself, none by 0. */
+        static final int BEGIN = 0;
+        static final int LENGTH = 1;
+        static final int WORD_KIND = 2;
+        /** What words are: letters, digits, or else the sign itself. */
         static final char LETTERS = 'a';
         static final char DIGITS = '0';
         /** An entry's numbers: shape, item, month, 1 for a difference, the a it has, the a it had before. */
@@ -4696,8 +4697,8 @@ public final class RoadHouse {
 
         private final char[] text = new char[MOST_SIGNS];
         private int signs;
-        /** Where words begin; behind the last word the length of the text. */
-        private final int[] word = new int[MOST_SIGNS + 1];
+        /** Of each word where it begins, how many signs it has, and what it is. */
+        private final int[][] word = new int[MOST_SIGNS][3];
         private int words;
         private final int[][] item = new int[MOST_ITEMS][ITEM];
         private int items;
@@ -4793,29 +4794,29 @@ public final class RoadHouse {
             char before = ' ';
             for (int i = 0; i < signs; i++) {
                 char kind = kindOfSign(text[i]);
-                boolean row = (kind == LETTERS || kind == DIGITS) && kind == before;
-                if (kind != ' ' && !row) {
-                    word[words] = i;
+                if (words > 0 && kind == before && (kind == LETTERS || kind == DIGITS)) {
+                    word[words - 1][LENGTH]++;
+                } else if (kind != ' ') {
+                    word[words][BEGIN] = i;
+                    word[words][LENGTH] = 1;
+                    word[words][WORD_KIND] = kind;
                     words++;
                 }
                 before = kind;
             }
         }
 
-        private char kindOf(int w) {
-            return w >= 0 && w < words ? kindOfSign(text[word[w]]) : 0;
+        /** What a word is; 0: there is none such. */
+        private int kindOf(int w) {
+            return w >= 0 && w < words ? word[w][WORD_KIND] : 0;
         }
 
         private int lengthOf(int w) {
-            if (w < 0 || w >= words) {
-                return 0;
-            }
-            char kind = kindOfSign(text[word[w]]);
-            int end = word[w] + 1;
-            while ((kind == LETTERS || kind == DIGITS) && end < signs && kindOfSign(text[end]) == kind) {
-                end++;
-            }
-            return end - word[w];
+            return w >= 0 && w < words ? word[w][LENGTH] : 0;
+        }
+
+        private char signOf(int w, int k) {
+            return w >= 0 && w < words && k >= 0 && k < word[w][LENGTH] ? text[word[w][BEGIN] + k] : ' ';
         }
 
         /** The number that a word is; - 1: it is none, or has more than four digits. */
@@ -4825,7 +4826,7 @@ public final class RoadHouse {
             }
             int v = 0;
             for (int k = 0; k < lengthOf(w); k++) {
-                v = 10 * v + text[word[w] + k] - '0';
+                v = 10 * v + signOf(w, k) - '0';
             }
             return v;
         }
@@ -4835,40 +4836,38 @@ public final class RoadHouse {
                 return -1000;
             }
             findWords();
-            int count = 0;
-            int w = 0;
-            boolean more = true;
-            while (more && count <= MOST_ITEMS) {
-                if (count == MOST_ITEMS || !takeName(w, count) || kindOf(w + 1) != '=') {
-                    w += count < MOST_ITEMS && takeName(w, count) ? 1 : 0;
-                    break;
-                }
-                int end = takeExpression(w + 2, item[count]);
-                w = end < 0 ? -1 - end : end;
-                if (end < 0) {
-                    break;
-                }
-                if (kindOf(w) == '~') {
-                    w++;
-                    item[count][STEP] = numberOf(w);
-                    if (numberOf(w) < 1) {
-                        break;
-                    }
-                    w++;
-                }
-                more = kindOf(w) == ';';
-                if (!more && w < words) {
-                    break;
-                }
-                count++;
-                w++;
+            int last = 0;
+            int w = takeItem(0, last);
+            while (w >= 0 && kindOf(w) == ';' && last + 1 < MOST_ITEMS) {
+                last++;
+                w = takeItem(w + 1, last);
             }
             signs = 0;
-            if (more || w <= words) {
+            if (w < 0) {
+                return w;
+            }
+            if (w < words) {
+                // behind the last item there may be is a sign, but no name
+                return kindOf(w) == ';' ? -2 - w : -1 - w;
+            }
+            items = last + 1;
+            return items;
+        }
+
+        /** Takes an item: the word behind it, or - 1 less the number of the first wrong word. */
+        private int takeItem(int w, int k) {
+            if (!takeName(w, k)) {
                 return -1 - w;
             }
-            items = count;
-            return items;
+            if (kindOf(w + 1) != '=') {
+                return -2 - w;
+            }
+            int end = takeExpression(w + 2, item[k]);
+            if (end < 0 || kindOf(end) != '~') {
+                return end;
+            }
+            item[k][STEP] = numberOf(end + 1);
+            return item[k][STEP] < 1 ? -2 - end : end + 2;
         }
 
         /** Takes a word as the name of an item, if it can be one. */
@@ -4881,7 +4880,7 @@ public final class RoadHouse {
             row[0] = length;
             row[STEP] = 1;
             for (int i = 0; i < length; i++) {
-                row[NAME + i] = text[word[w] + i];
+                row[NAME + i] = signOf(w, i);
             }
             for (int other = 0; other < k; other++) {
                 boolean same = item[other][0] == length;
@@ -4906,7 +4905,7 @@ public final class RoadHouse {
             boolean operand = true;
             row[COUNT] = 0;
             for (int w = first; w <= words; w++) {
-                char kind = kindOf(w);
+                int kind = kindOf(w);
                 if (operand && kind == '(' && brackets < MOST_BRACKETS) {
                     stack[waiting++] = '(';
                     brackets++;
@@ -4935,14 +4934,14 @@ public final class RoadHouse {
         /** Signs that wait and bind at least so strongly become things, back to a bracket: how many still wait. */
         private int takeWaiting(int[] row, int waiting, int rank) {
             int left = waiting;
-            while (left > 0 && rankOf((char) stack[left - 1]) >= rank && row[COUNT] < MOST_THINGS) {
+            while (left > 0 && rankOf(stack[left - 1]) >= rank && row[COUNT] < MOST_THINGS) {
                 left--;
                 row[THINGS + row[COUNT]++] = -(int) stack[left];
             }
             return left;
         }
 
-        private static int rankOf(char c) {
+        private static int rankOf(long c) {
             return c == '+' || c == '-' ? 1 : c == '*' || c == '/' ? 2 : 0;
         }
 
@@ -4951,7 +4950,7 @@ public final class RoadHouse {
             if (kindOf(w) == DIGITS) {
                 return numberOf(w) + 1;
             }
-            char c = w < words ? text[word[w]] : ' ';
+            char c = signOf(w, 0);
             boolean letter = kindOf(w) == LETTERS && lengthOf(w) == 1 && (c == 'k' || c >= 'a' && c <= 'c');
             return letter ? -c : 0;
         }
