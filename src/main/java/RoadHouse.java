@@ -3272,7 +3272,7 @@ public final class RoadHouse {
             int found = 0;
             for (int k = 0; k < values; k++) {
                 count = addPoint(anew, count, row[k]);
-                while (closesTurn(anew, count)) {
+                while (count > 3 && closesTurn(anew, count)) {
                     if (found >= turns || turn[found][0] != anew[count - 3] || turn[found][1] != anew[count - 2]
                             || turn[found][2] != k + 1) {
                         return false;
@@ -3731,7 +3731,7 @@ public final class RoadHouse {
         /** How many digits stand at a place of the text, 0 in front being none. */
         private int digitsAt(int i) {
             int end = i;
-            while (signAt(end) >= '0' && signAt(end) <= '9') {
+            while (end < signs && signAt(end) >= '0' && signAt(end) <= '9') {
                 end++;
             }
             return signAt(i) == '0' ? 0 : end - i;
@@ -3769,7 +3769,7 @@ public final class RoadHouse {
             for (int count = 0; count < MOST_PHASES; count++) {
                 int bits = 0;
                 int g = signAt(i) - 'A';
-                while (g >= 0 && g < groups && bits >> g == 0) {
+                while (i < signs && g >= 0 && g < groups && bits >> g == 0) {
                     bits |= 1 << g;
                     i++;
                     g = signAt(i) - 'A';
