@@ -374,6 +374,16 @@ public final class BridgesTest {
     }
 
     void beams(Check c, Random r) {
+        if (r.nextInt(5) == 0) {
+            // fractions with sixteen digits
+            lengths = new int[] {12, 12, 11};
+            both(c, 201);
+            text(c, 200, "F12x7.12x11.11x9F");
+            both(c, 207, 2, 2, 3);
+            both(c, 207, 2, 2, r.nextInt(5));
+            both(c, 207, r.nextInt(3), r.nextInt(3), r.nextInt(5));
+            return;
+        }
         lengths = new int[1 + r.nextInt(3)];
         StringBuilder text = new StringBuilder("S");
         for (int k = 0; k < lengths.length; k++) {

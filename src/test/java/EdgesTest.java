@@ -46,7 +46,7 @@ public final class EdgesTest {
             {5, 0, 0, 2, 0, 8, -2}, {8, 0}, {9, 0}, {16, -1}, {6, 0, 0, -1}, {10, 0, 1, -3},
             {5, 0, 0, 2, 0, 9, -2}, {8, 0}, {5, 0, 0, 2, 0, 16, -2}, {8, 0}, {5, 0, 0, 2, 0, 17, -2}, {8, 70},
             {5, 0, 0, 2, 0, 100000, 2}, {8, 70}, {9, 1}, {7, 0, 70}, {7, 1, 1}, {16, 0}, {17, 1},
-            {6, 0, 2, 16}, {6, 1, 2, 0}, {6, 2, 0, 2}, {6, 3, 0, -1}, {6, 0, 3, -1}, {7, 2, -1}, {15, 0, 7}, {15, 8, -1}, {15, 1, 0},
+            {6, 0, 2, 16}, {6, 1, 2, 0}, {6, 2, 0, 2}, {6, 3, 0, -1}, {6, 0, 3, -1}, {7, 2, -1}, {15, 0, 7}, {15, 8, -1}, {15, 1, 0}, {15, 7, 0}, {15, -1, -1},
             {10, 0, 1, -1}, {9, 1}, {10, 1, 1, 2}, {10, 101, 101, -3}, {10, 1, 0, -3}, {10, 2, 1, -3}, {10, -1, 1, -3}, {16, 0},
             {10, 1, 1, 2}, {10, 1, 1, 2}, {10, 1, 1, 2}, {10, 1, 1, 2}, {10, 1, 1, -3},
             {2, 1, 9999, 8, 1}, {0, 1, 0, 7, 9, 1}, {2, 1, 8, 8, 1}, {17, 0}, {5, 0, 0, 2, 0, 100000, -1}, {9, 1}, {16, -1}, {8, 0},
@@ -422,6 +422,120 @@ public final class EdgesTest {
         full(new RoadHouse(), 700, 200);
     }
 
+    /** The desk's own edges, each on a house of its own. */
+    private static void desk() {
+        RoadHouse x = new RoadHouse();
+        for (int k = 12; k < 144; k++) {
+            x.act(1, k % 12, k / 12, 0, 0, 0);
+        }
+        for (int k = 3; k < 5; k++) {
+            x.act(1, k, 0, 0, 0, 0);
+            x.act(12, k, 0, 3, 1, 0);
+        }
+        C.due("no way", x.earth(0, 0) + x.bridge(0, 1) + x.bill(0) + x.drive(1) + x.rowOf(0) + x.pass(0), -6L);
+        int[] levels = {10, 0, 15, 7, 7, 20, 9};
+        for (int k = 0; k < levels.length; k++) {
+            x.act(0, k, 0, 1, levels[k], 0);
+        }
+        C.rows(x, new long[][] {{5, 0, 0, 6, 0, 100000, 6}});
+        C.due("no such kind, week", x.earth(-1, 0) + x.earth(4, 0) + x.earth(0, -1) + x.earth(0, 12), -4L);
+        C.due("earth", x.earth(3, 11), 3L);
+        // the line falls by one sixth a place, down to 9 from place 1 on; fills stay in the last week
+        C.rows(x, new long[][] {{115, 10, 1, 90}, {115, 9, 1, 0}, {115, 20, 0, 60}, {115, 19, 0, 0}, {115, 50, 0, 170}, {115, 100000, 1, 90}, {108, 2, 0}, {114, 11, 0, 2, 60},
+            {114, 11, 1, 2, 30}});
+        C.due("rows", x.bridge(-1, 1) + x.bridge(1, 1) + x.bridge(0, 0) + x.bridge(0, 13), -4L);
+        C.collect(x, 200, "S1x");
+        C.due("bridge", x.bridge(0, 1), 3L);
+        C.rows(x, new long[][] {{214, 0, 3}, {214, 4, 15}, {214, 3, 4}, {201, -1}});
+        C.due("stiff", x.bridge(0, 12), 3L);
+        // the end gets a bridge: the row of bridged places at it has no place behind, those at the beginning none before
+        C.rows(x, new long[][] {{1, 6, 0, 1}, {12, 6, 0, 1, 0, 1}, {1, 0, 0, 1}, {12, 0, 0, 1, 0, 1}});
+        C.due("first", x.bridge(0, 2), 3L);
+        C.due("no place behind", x.bridge(1, 2), -1L);
+        C.rows(x, new long[][] {{1, 2, 0, 1}, {12, 2, 0, 3, 0, 1}});
+        C.due("more than three moves", x.bridge(0, 2), -1L);
+        C.rows(x, new long[][] {{1, 1, 0, 1}, {12, 1, 0, 3, 0, 1}});
+        C.due("none before", x.bridge(0, 2), -1L);
+        C.due("ends are bridged", x.earth(0, 0), 1L);
+        C.due("good ones", x.whole(0), 5L);
+        toStress();
+        toCars();
+    }
+
+    private static void toStress() {
+        RoadHouse x = new RoadHouse();
+        C.rows(x, new long[][] {{301, 0}, {302, 0, 0, 1000000, 1}});
+        C.due("no places", x.pass(0), 0L);
+        C.rows(x, new long[][] {{300, 0, -1, 1, 1}, {300, 1, 1, 1, 1}, {300, 2, -1000001, 1000, 0}, {300, 2, 1001, 1000, 1}, {300, 3, -2, 3, 1}, {300, 4, 7, 1000000, 0}, {414, 0, 0}, {414, 1, 0}});
+        C.due("one is too far", x.pass(0), 3L);
+        C.rows(x, new long[][] {{414, 0, -1000000}, {414, 1, 1000000}, {403, 0, 0}, {403, 1, -1000000}, {403, 2, 1000000}, {403, 3, -666666}, {403, 4, 0}});
+        C.due("no train", x.pass(1) + x.pass(-1), -2L);
+        for (int k = 0; k < 293; k++) {
+            C.due("value", x.act(400, 5, 0, 0, 0, 0), 1);
+        }
+        C.due("room for two", x.pass(0), 2L);
+        C.due("full", x.act(400, 0, 0, 0, 0, 0), 0);
+        C.rows(x, new long[][] {{203, 1, 0, 0, 0}, {207, 0, 0, 0, 0}, {203, 0, 0, 0, 1}});
+        C.due("loose", x.rowOf(0), -1L);
+        C.rows(x, new long[][] {{203, 0, 0, 1, 0}, {320, 0}, {304, 0, 0, 4}, {320, 4}});
+        // the moment at a clamped end under a load at each quarter: nothing at it, then - 1/4 and so on
+        C.due("row", x.rowOf(0), 5L);
+        C.rows(x, new long[][] {{320, 0}, {304, 0, 0, 5}, {305, 0, 0}, {318, 0, 1, 0, 250000}, {318, 0, 1, -1, -1}, {318, 0, 4, 0, 1000000}, {306, 0, 0}, {300, 4, 1, 1, 0}, {300, 5, 1, 1, 1}});
+        C.due("no row", x.rowOf(1) + x.rowOf(-1), -2L);
+    }
+
+    private static void toCars() {
+        RoadHouse x = new RoadHouse();
+        C.rows(x, new long[][] {{500, 2, 0}});
+        text(x, 504, "A2-3;B2-3", 2);
+        C.due("seconds", x.drive(0) + x.drive(101), -2L);
+        C.rows(x, new long[][] {{600, 1, 900, 10, 100, 1}, {604, 1, 900, 1}});
+        // B's cell gets its red from step 1 on, and its green when B is shown
+        C.due("drive", x.drive(5), 5L);
+        C.rows(x, new long[][] {{607, 0, 5}, {510, 0, 5}, {608, 1, 870}, {611, 1, 20}, {511, 1, 1}});
+        C.due("drive", x.drive(2), 2L);
+        C.rows(x, new long[][] {{511, 1, 0}, {608, 1, 870}, {501, 0, 1, 0, 1}, {502, 0, 15, 1}});
+        C.due("a fault", x.drive(100), 2L);
+        C.rows(x, new long[][] {{607, 0, 9}, {510, 0, 3}, {607, 190, 199}});
+        C.due("the last step", x.drive(100), 1L);
+        C.rows(x, new long[][] {{607, 0, 200}, {510, 0, 4}});
+        C.due("no steps", x.drive(7), 0L);
+        C.rows(x, new long[][] {{510, 0, 4}});
+        C.due("good ones", x.whole(0), 5L);
+    }
+
+    /** What is in what was kept, too; shares of one; and some bounds that are in. */
+    private static void rest() {
+        RoadHouse x = new RoadHouse();
+        for (int k = 0; k < 3; k++) {
+            x.act(600, k, 100000, 100000, 100, 0);
+        }
+        C.rows(x, new long[][] {
+            {601, 2, 0, 1}, {601, 0, 1, 1}, {601, 0, 2, 1}, {602, 0, 1, 1, 3, 1}, {602, 2, 0, 1, 7, 1}, {604, 0, 100, 1}, {607, 1, 1}, {613, 0, 1, 0, 1}, {613, 0, 1, 1, 3},
+            {621, 0}, {621, 1}, {602, 0, 1, 1, 3, 1}, {613, 0, 1, 0, 0}, {622, 0, 1}, {613, 0, 1, 0, 0}, {622, 1, 1}, {613, 0, 1, 0, 0}, {615, 0, 20, 0}, {615, 0, 0, 20},
+            {616, 0, 1, 100000, 0}, {616, 0, 0, 100001, 100000}, {605, 0, 200, 100000, 1}, {614, 0, 200, 1000, 1000, 1}, {614, 0, 200, 1, 1001, 0},
+        });
+        RoadHouse y = new RoadHouse();
+        text(y, 700, "x=a", 1);
+        C.rows(y, new long[][] {
+            {703, 0, 9999, -9999, 9999, 0}, {704, 0, 0, 11, 1}, {702, 0, 1000000, 1}, {702, 0, -1000000, 1}, {717, 3, 1, 1}, {718, 3, 11, -9999000000L}, {718, 0, 11, 0},
+            {717, 3, 0, 1}, {717, 0, 7, 1}, {718, 0, 11, -9999000000L}, {718, 3, 11, 0}, {710, 0, 1000, 1000, 11, 1}, {710, 0, 0, 1, 11, 2}, {718, 0, 11, 0},
+            {711, 11, 1000, 1000, 1}, {712, 1000, 1000, 1}, {712, 1000, 1001, 0}, {715, 11, 11, 0, 1}, {708, -1, 0, -1}, {708, 0, 0, -1}, {721, 0, 0, -1},
+            {704, 0, 0, 0, 1}, {708, 0, -1, -1}, {708, 0, 3, -1}, {708, -1, 1, -1}, {708, 0, 2, 0},
+        });
+        RoadHouse z = new RoadHouse();
+        C.due("begin", z.act(500, 2, 0, 0, 0, 0), 0);
+        C.due("clash", z.act(501, 1, 0, 15, 0, 0), 1);
+        text(z, 504, "A1-1;B1-1", 2);
+        // behind a round the machine is as at first: that state is not a new one
+        long all = z.act(512, 400, 0, 0, 0, 0) == 1 ? z.act(513, 0, 0, 0, 0, 0) : 0;
+        C.due("as many as there are", z.act(512, (int) all, 0, 0, 0, 0), 1);
+        for (int k = 0; k < 17; k++) {
+            C.due("second", z.act(509, 0, 0, 0, 0, 0), 0);
+        }
+        C.due("as at first", z.act(510, 8, 0, 0, 0, 0), 0);
+    }
+
     public static void main(String[] args) {
         way();
         earth();
@@ -432,6 +546,8 @@ public final class EdgesTest {
         proofs();
         cars();
         contract();
+        desk();
+        rest();
         C.end();
     }
 }
