@@ -1,0 +1,174 @@
+/** Part BEAMS, sentence by sentence. */
+public final class BeamsSentencesTest {
+    private static void reads(String text, long want) {
+        RoadHouse x = Script.on("200'S7x1S' 201()=1 207(0,0,2)=0 212(0,5)=1 200'" + text + "' 201()=" + want);
+        if (want < 0) {
+            Script.then(x, "214(0)=1 214(1)=1 214(4)=7 213(0,1,1,0)=5 200'F1x1.' 201()=1");
+        } else {
+            Script.then(x, "214(0)=" + want + " 214(1)=0 213(0,1,1,0)=" + (x.act(205, 0, 0, 0, 0, 0) == 0 ? 0 : -1) + " 201()=-1");
+        }
+    }
+
+    @Says("As behind the text \"F1x1.\" (its last sign is a point).")
+    static void atFirst() {
+        Script.on("214(0)=1 214(1)=0 214(2)=0 214(3)=1 214(4)=1 205()=0 203(0,0,1)=1 203(0,1,1)=1 203(1,0,0)=0 203(1,1,0)=0 204(0,0,0)=0 204(0,1,0)=0 201()=-1 207(2,0,4)=0 208(0,0,4,0)=1 208(0,0,4,1)=3");
+    }
+
+    @Says({"200: A sign of 32 .. 126 is collected, at most 50.", "200: False: another one, no room."})
+    static void unit() {
+        Script.on("200(31)=0 200(127)=0 200(-1)=0 200(MIN)=0 200(MAX)=0 200(339)=0 200'F2x2.' 201()=1 25*200(32)=1 25*200(126)=1 200(83)=0 200(32)=0 201()=-1 200'S1x1S' 201()=1 49*200(83)=1 200(31)=0 200(83)=1 200(83)=0 201()=-2");
+    }
+
+    @Says({"201: how many beams; nothing is settled, no rows are told.", "201: (if it ends too early, the one behind the last; of a number that is too great, its first digit)",
+        "the row of beams stays as it is then (what was collected is gone all the same)", "A TEXT of a row: a node, and 1 to 3 times a beam and a node."})
+    static void read() {
+        reads("", -1);
+        reads("S", -2);
+        reads("F1x1.", 1);
+        reads("S1x1S1x1S", 2);
+        reads("S1x1S1x1S1x1S", 3);
+        reads("S1x1S1x1S1x1S1x1S", -14);
+        reads("S1x1S1x1S1x1S.", -14);
+        reads("S1x1", -5);
+        reads("S1x1h", -6);
+        reads("S1x1S1", -7);
+        reads("S1x1S1x1", -9);
+        reads("S12x", -5);
+        reads("S12", -4);
+        reads("Sh", -3);
+    }
+
+    @Says({"A node is . (not held), S (in height), T (in turning) or F (both).", "A beam is h (a hinge at its left end) or nothing, its length, x, its stiffness, h (at its right end) or nothing."})
+    static void signs() {
+        reads(".h2x3hT", 1);
+        reads("Sh2x3F", 1);
+        reads("T2x3hS", 1);
+        reads("s2x3S", -1);
+        reads("H2x3S", -1);
+        reads("S2X3S", -3);
+        reads("S2y3S", -3);
+        reads("Shh2x3S", -3);
+        reads("S2hx3S", -3);
+        reads("S2xh3S", -4);
+        reads("S2x3hhS", -6);
+        reads("S2x3f", -5);
+        reads("SS2x3S", -2);
+        Script.on("200'.h2x3hT' 201()=1 203(0,0,0)=0 203(0,1,0)=0 203(1,0,0)=0 203(1,1,0)=1 204(0,0,1)=1 204(0,1,1)=1 214(2)=2 214(3)=0 200'S2x3hF' 201()=1 203(0,0,0)=1 203(0,1,0)=0 203(1,0,0)=1 203(1,1,0)=1 204(0,0,1)=0 204(0,1,1)=1");
+    }
+
+    @Says({"Numbers have one or two digits, no 0 in front (two digits are taken, if there are two: a third one is a wrong sign).", "No blanks.", "with a LENGTH L 1 .. 12 and a STIFFNESS E 1 .. 12"})
+    static void numbers() {
+        reads("S1x12S", 1);
+        reads("S12x1S", 1);
+        reads("S9x10S", 1);
+        reads("S13x1S", -2);
+        reads("S1x13S", -4);
+        reads("S99x1S", -2);
+        reads("S20x1S", -2);
+        reads("S0x1S", -2);
+        reads("S01x1S", -2);
+        reads("S1x0S", -4);
+        reads("S1x01S", -4);
+        reads("S123x1S", -4);
+        reads("S1x123S", -6);
+        reads("S991x1S", -2);
+        reads("Sx1S", -2);
+        reads("S1xS", -4);
+        reads(" S1x1S", -1);
+        reads("S 1x1S", -2);
+        reads("S1 x1S", -3);
+        reads("S1x 1S", -4);
+        reads("S1x1 S", -5);
+        reads("S1x1S ", -6);
+    }
+
+    @Says({"202: throws ArrayIndexOutOfBoundsException", "202: False: no such numbers.", "202: A beam that there is not throws, before all else (so below)."})
+    static void member() {
+        Script.on("200'S1x1S2x1S' 201()=2 202(-1,1,1)!index 202(2,1,1)!index 202(2,0,0)!index 202(-1,13,1)!index 202(MIN,1,1)!index 202(MAX,1,1)!index 202(0,0,1)=0 202(0,13,1)=0 202(0,1,0)=0 202(0,1,13)=0 202(0,-1,-1)=0"
+            + " 214(4)=3 202(1,12,12)=1 214(4)=13 202(0,1,1)=1 202(1,0,1)=0 202(1,1,13)=0 214(4)=13");
+    }
+
+    @Says({"203: throws ArrayIndexOutOfBoundsException", "203: A node is held (or not) in height (axis 0), in turning (1): whether it was so before.", "203: False also: another axis."})
+    static void support() {
+        Script.on("203(-1,0,0)!index 203(2,0,0)!index 203(2,5,0)!index 203(MIN,0,1)!index 203(0,2,0)=0 203(0,-1,0)=0 203(0,0,1)=1 203(0,1,0)=1 203(0,1,0)=0 203(1,0,7)=0 203(1,0,-1)=1 214(3)=2 203(1,0,0)=1 203(1,0,0)=0 214(3)=1 203(0,2,0)=0 203(0,0,1)=1");
+    }
+
+    @Says({"204: throws ArrayIndexOutOfBoundsException", "204: whether it had one.", "204: False also: another end."})
+    static void hinge() {
+        Script.on("204(-1,0,0)!index 204(1,0,0)!index 204(1,5,0)!index 204(0,2,1)=0 204(0,-1,1)=0 214(2)=0 204(0,0,1)=0 204(0,0,3)=1 214(2)=1 204(0,1,0)=0 204(0,1,-5)=0 214(2)=2 204(0,0,0)=1 204(0,0,0)=0 214(2)=1");
+    }
+
+    @Says({"205: 0: the row is not loose; else how many nodes are loose.", "206: The k-th loose node of the row as it is now.", "206: BAD: none such.", "nodes are loose that can move or turn then (for turning: of ends without a hinge)"})
+    static void loose() {
+        Script.on("206(0)=-1 200'.1x1.' 201()=1 205()=2 206(0)=0 206(1)=1 206(2)=-1 206(-1)=-1 206(MIN)=-1 200'S1x1S' 201()=1 205()=0 206(0)=-1 200'S1x1.' 201()=1 205()=2 200'T1x1T' 201()=1 205()=2 200'T1x1S' 201()=1 205()=0");
+        Script.on("200'Sh4x1hS' 201()=1 205()=0 200'F4x1h.1x1.' 201()=2 205()=2 206(0)=1 206(1)=2 206(2)=-1 200'Fh4x1h.h4x1hF' 201()=2 205()=1 206(0)=1 206(1)=-1 200'F4x1h.h4x1F' 201()=2 205()=0 200'Fh4x1h.h4x1F' 201()=2 205()=0");
+        // the last beam alone turns; then none does
+        Script.on("200'F4x1S2x1hS3x1.' 201()=3 205()=2 206(0)=2 206(1)=3 203(3,0,1)=0 205()=0 206(0)=-1 203(3,0,0)=1 203(2,1,1)=0 205()=0 204(2,0,1)=0 205()=1 206(0)=3");
+    }
+
+    @Says({"207: its number", "207: (it must be so when the row is told; as long as it is not, 208 and 209 answer as for none such, and the row stays)", "207: The same told again is a new row.", "207: BAD: none such; there are 8."})
+    static void row() {
+        Script.on("207(-1,0,0)=-1 207(4,0,0)=-1 207(0,-1,0)=-1 207(0,1,0)=-1 207(0,0,-1)=-1 207(0,0,5)=-1 207(3,1,0)=-1 207(3,-1,0)=-1 207(3,2,0)=-1 207(3,0,1)=-1 207(3,0,-1)=-1 214(1)=0 207(3,0,0)=0 207(3,0,0)=1 207(0,0,0)=2"
+            + " 207(1,0,4)=3 207(2,0,4)=4 3*207(2,0,4)=5+# 207(2,0,4)=-1 207(3,0,0)=-1 214(1)=8");
+        Script.on("200'F4x1S' 201()=1 207(3,1,0)=0 208(0,0,4,0)=1 208(0,0,2,0)=5 208(0,0,2,1)=16 203(1,0,0)=1 205()=0 208(0,0,2,0)=-1 208(0,0,2,-1)=-2 209(0,1,0)=-1 209(0,1,-1)=-2 214(1)=1 207(3,1,0)=-1 207(0,0,0)=1 203(1,0,1)=0 208(0,0,2,0)=5 209(0,1,-1)=1");
+    }
+
+    @Says({"207: Rows stay, and are those of the beams as they are, whatever 202 to 204 change.", "207: (of the shear at a load's own place: just before it; at places 0 and 4 as within the beam)"})
+    static void rowsStay() {
+        Script.on("200'S8x3S' 201()=1 207(0,0,2)=0 208(0,0,2,0)=2 202(0,4,5)=1 208(0,0,2,0)=1 203(1,1,1)=0 208(0,0,2,0)=5 208(0,0,2,1)=8 204(0,1,1)=0 208(0,0,2,0)=1 208(0,0,2,1)=1 203(1,0,0)=1 208(0,0,2,0)=-1 203(1,0,1)=0 208(0,0,2,0)=1");
+        RoadHouse x = Script.on("200'S8x3S' 201()=1 207(1,0,2)=0 207(1,0,0)=1 207(1,0,4)=2");
+        Script.then(x, "208(0,0,2,-1)=1 208(0,0,2,0)=1 208(0,0,2,1)=2 208(0,0,1,-1)=-1 208(0,0,1,1)=4 208(0,0,3,-1)=1 208(0,0,3,1)=4 208(0,0,0,-1)=0 208(0,0,0,1)=1 208(0,0,4,-1)=0");
+        Script.then(x, "208(1,0,0,-1)=0 208(1,0,2,-1)=1 208(1,0,2,1)=2 208(1,0,1,0)=3 208(1,0,1,1)=4 208(2,0,4,-1)=0 208(2,0,2,-1)=-1 208(2,0,3,0)=3 208(2,0,3,1)=4 208(2,0,0,-1)=0");
+    }
+
+    @Says({"208: BAD (part - 1: NONE): none such (a part below - 1, too); the row of beams is loose; of a reaction: that node is not held now.", "(0 beyond the last; a part below - 1 is none)", "told in least terms (0 as 0 / 1)"})
+    static void at() {
+        RoadHouse x = Script.on("200'S8x3S' 201()=1 208(0,0,0,0)=-1 208(0,0,0,-1)=-2 207(0,0,2)=0 208(-1,0,0,0)=-1 208(1,0,0,0)=-1 208(1,0,0,-1)=-2 208(-1,0,0,-1)=-2 208(0,-1,0,0)=-1 208(0,1,0,0)=-1 208(0,1,0,-1)=-2"
+            + " 208(0,0,-1,0)=-1 208(0,0,5,0)=-1 208(0,0,5,-1)=-2 208(0,0,2,-2)=-1 208(0,0,2,MIN)=-1");
+        Script.then(x, "208(0,0,1,-1)=1 208(0,0,1,0)=1 208(0,0,1,1)=1 208(0,0,1,2)=0 208(0,0,1,3)=0 208(0,0,1,MAX)=0 208(0,0,0,-1)=0 208(0,0,0,0)=0 208(0,0,0,1)=1 203(0,0,0)=1 208(0,0,1,0)=-1 208(0,0,1,-1)=-2 208(0,0,1,5)=-1 203(0,0,1)=0 208(0,0,1,0)=1");
+    }
+
+    @Says({"209: above 0 (sign 1), or below it (- 1; told as above 0), by parts.", "209: BAD (part - 1: NONE): as above; another sign."})
+    static void area() {
+        RoadHouse x = Script.on("200'S8x3S' 201()=1 209(0,1,0)=-1 209(0,1,-1)=-2 207(1,0,2)=0 209(0,0,0)=-1 209(0,0,-1)=-2 209(0,2,0)=-1 209(0,-2,-1)=-2 209(1,1,0)=-1 209(-1,1,-1)=-2 209(0,1,-2)=-1");
+        Script.then(x, "209(0,1,-1)=1 209(0,1,0)=4 209(0,1,1)=3 209(0,-1,-1)=1 209(0,-1,0)=1 209(0,-1,1)=3 209(0,1,2)=0 207(0,0,2)=1 209(1,1,0)=8 209(1,1,1)=1 209(1,-1,-1)=0 209(1,-1,0)=0 209(1,-1,1)=1 203(1,0,0)=1 209(0,1,0)=-1 209(0,1,-1)=-2");
+        // at a clamped end the moments are - 1, - 2, - 3, - 4: all below 0
+        Script.on("200'F4x1.' 201()=1 207(0,0,0)=0 208(0,0,3,-1)=-1 208(0,0,3,0)=3 209(0,-1,-1)=1 209(0,-1,0)=8 209(0,-1,1)=1 209(0,1,-1)=0");
+    }
+
+    @Says("210: False also: another row, loose.")
+    static void turned() {
+        Script.on("210(0)=0 207(2,0,3)=0 207(0,0,3)=1 207(1,0,3)=2 207(3,0,0)=3 210(0)=1 210(1)=0 210(2)=0 210(3)=0 210(4)=0 210(-1)=0 203(0,0,0)=1 210(0)=0 203(0,0,1)=0 203(0,1,0)=1 210(0)=0 203(1,1,1)=0 210(0)=1");
+    }
+
+    @Says("211: False also: loose.")
+    static void sums() {
+        Script.on("211()=1 203(0,1,0)=1 211()=0 203(1,0,1)=0 211()=1 200'T1x1T' 201()=1 211()=0 200'S1x1S2x2hS3x3S' 201()=3 211()=1");
+    }
+
+    @Says({"212: is settled by v, - 1,000 .. 1,000 (0 at first, and when it is not held any more).", "212: False: none such."})
+    static void settled() {
+        Script.on("212(-1,1)=0 212(2,1)=0 212(1,1)=0 212(0,1001)=0 212(0,-1001)=0 212(MIN,0)=0 213(0,1,1,-1)=0 212(0,1000)=1 213(0,1,1,0)=1000 212(0,1001)=0 213(0,1,1,0)=1000 212(0,-1000)=1 213(0,1,1,-1)=-1 213(1,1,1,-1)=-1 213(1,1,1,0)=1000"
+            + " 203(1,0,1)=0 213(1,1,1,0)=0 213(0,1,1,0)=1000 203(0,0,0)=1 212(0,5)=0 203(0,0,1)=0 213(0,1,1,0)=0 212(1,4)=1 203(1,1,1)=0 213(1,1,1,0)=4");
+    }
+
+    @Says({"213: times above / below (above - 1,000 .. 1,000, below 1 .. 1,000), by parts.", "213: BAD (part - 1: NONE): none such; loose."})
+    static void move() {
+        RoadHouse x = Script.on("200'S4x1.4x1S' 201()=2 212(2,10)=1 213(1,1,1,0)=5 213(1,1,1,1)=1 213(1,-3,10,-1)=-1 213(1,-3,10,0)=3 213(1,-3,10,1)=2 213(1,1000,1000,0)=5 213(1,-1000,1,0)=5000 213(1,0,5,-1)=0 213(1,0,5,1)=1 213(1,1,1,2)=0 213(0,1,1,0)=0 213(2,1,2,0)=5");
+        Script.then(x, "213(-1,1,1,0)=-1 213(3,1,1,0)=-1 213(3,1,1,-1)=-2 213(1,1001,1,0)=-1 213(1,-1001,1,-1)=-2 213(1,1,0,0)=-1 213(1,1,1001,-1)=-2 213(1,1,-1,0)=-1 213(1,1,1,-2)=-1 203(0,0,0)=1 213(2,1,1,0)=-1 213(2,1,1,-1)=-2 203(0,0,1)=0 213(2,1,1,0)=10");
+    }
+
+    @Says("214: BAD: another number.")
+    static void count() {
+        Script.on("214(5)=-1 214(-1)=-1 214(MAX)=-1 200'Sh12x1h.h11x1F10x1hS' 201()=3 214(0)=3 214(1)=0 214(2)=4 214(3)=3 214(4)=33");
+    }
+
+    @Says("(A load at place 0 or 4 stands at the node, and has no part in the shears of the beam's ends, so far as these are told.)")
+    static void loadAtNode() {
+        Script.on("200'S2x1S2x1S' 201()=2 207(3,1,0)=0 207(1,0,4)=1 207(1,1,0)=2 208(0,0,4,0)=1 208(0,1,0,0)=1 208(0,1,0,1)=1 208(1,0,4,-1)=0 208(2,1,0,-1)=0 208(1,1,0,-1)=0");
+    }
+
+    public static void main(String[] args) {
+        Script.run(BeamsSentencesTest.class);
+    }
+}
