@@ -121,7 +121,7 @@ public final class BeamsSentencesTest {
         Script.then(x, "208(1,0,0,-1)=0 208(1,0,2,-1)=1 208(1,0,2,1)=2 208(1,0,1,0)=3 208(1,0,1,1)=4 208(2,0,4,-1)=0 208(2,0,2,-1)=-1 208(2,0,3,0)=3 208(2,0,3,1)=4 208(2,0,0,-1)=0");
     }
 
-    @Says({"208: BAD (part - 1: NONE): none such (a part below - 1, too); the row of beams is loose; of a reaction: that node is not held now.", "(0 beyond the last; a part below - 1 is none)", "told in least terms (0 as 0 / 1)"})
+    @Says({"208: BAD (part - 1: NONE): none such (a part below - 1, too); the row of beams is loose; of a reaction: that node is not held now.", "(0 beyond the last; a part below - 1 is none)", "told in least terms (0 as 0 / 1)", "PLACES of a beam are 0 .. 4: so many quarters of its length behind its left end."})
     static void at() {
         RoadHouse x = Script.on("200'S8x3S' 201()=1 208(0,0,0,0)=-1 208(0,0,0,-1)=-2 207(0,0,2)=0 208(-1,0,0,0)=-1 208(1,0,0,0)=-1 208(1,0,0,-1)=-2 208(-1,0,0,-1)=-2 208(0,-1,0,0)=-1 208(0,1,0,0)=-1 208(0,1,0,-1)=-2"
             + " 208(0,0,-1,0)=-1 208(0,0,5,0)=-1 208(0,0,5,-1)=-2 208(0,0,2,-2)=-1 208(0,0,2,MIN)=-1");
@@ -166,6 +166,16 @@ public final class BeamsSentencesTest {
     @Says("(A load at place 0 or 4 stands at the node, and has no part in the shears of the beam's ends, so far as these are told.)")
     static void loadAtNode() {
         Script.on("200'S2x1S2x1S' 201()=2 207(3,1,0)=0 207(1,0,4)=1 207(1,1,0)=2 208(0,0,4,0)=1 208(0,1,0,0)=1 208(0,1,0,1)=1 208(1,0,4,-1)=0 208(2,1,0,-1)=0 208(1,1,0,-1)=0");
+    }
+
+    @Says({"At a node that is not held in height the shear to the right (0 behind the last beam) is that to the left (0 before the first one), less one if a load stands at it; at one that is not held in turning the moments to the left and right of it (0 where there is no beam, or at a hinge) are the same."})
+    static void nodes() {
+        String rows = "207(1,0,4)=0 207(1,1,0)=1 207(0,0,4)=2 207(0,1,0)=3 ";
+        Script.on("200'S2x1.2x1S' 201()=2 " + rows + "208(0,0,4,-1)=1 208(0,0,4,1)=2 208(1,0,4,-1)=-1 208(1,0,4,1)=2 208(0,1,0,-1)=1 208(1,1,0,-1)=-1 208(2,0,4,0)=1 208(3,0,4,0)=1 208(0,0,2,-1)=-1 208(0,0,2,1)=4 208(1,0,2,-1)=-1 208(1,0,2,1)=4 208(2,0,2,0)=1 208(2,0,2,1)=2 208(3,0,2,1)=2");
+        // held in turning: a load on the left beam does nothing at the right one's left end
+        Script.on("200'S2x1F2x1S' 201()=2 " + rows + "208(2,0,2,-1)=-1 208(3,0,2,-1)=0 208(1,0,2,-1)=0 208(3,1,2,-1)=-1 208(2,1,2,-1)=0");
+        // at free ends there is nothing; at a hinge there is no moment
+        Script.on("200'.2x1F2x1.' 201()=2 207(1,0,0)=0 207(0,0,0)=1 207(1,1,4)=2 207(0,1,4)=3 208(0,0,2,-1)=0 208(1,0,2,-1)=0 208(2,1,2,-1)=0 208(3,1,2,-1)=0 208(0,1,4,-1)=0 200'F2x1h.2x1F' 201()=2 " + rows + "208(2,0,2,-1)=0 208(3,1,2,-1)=0 208(3,0,4,-1)=0 208(2,0,4,-1)=0");
     }
 
     public static void main(String[] args) {

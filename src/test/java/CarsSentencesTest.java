@@ -32,7 +32,7 @@ public final class CarsSentencesTest {
         Script.then(cells(3, "601(0,1)=1 601(0,2)=1 604(0,50)=1"), "607(1)=1 612(0,1)=0 612(0,2)=50");
     }
 
-    @Says({"603: False: none such.", "and a RANK 0 .. 9 (0)", "From the joins to it, those with lesser rank first, of one rank the lesser cell first, it takes what each one wants, as far as it goes."})
+    @Says({"What is wanted and not taken stays.", "603: False: none such.", "and a RANK 0 .. 9 (0)", "From the joins to it, those with lesser rank first, of one rank the lesser cell first, it takes what each one wants, as far as it goes."})
     static void rank() {
         Script.on("603(1,0,0)=0 601(0,1)=1 603(0,1,0)=0 603(1,0,-1)=0 603(1,0,10)=0 603(1,0,9)=1 603(24,0,0)=0 603(1,-1,0)=0");
         Script.then(cells(3, "601(1,2)=1 601(0,2)=1 604(0,90)=1 604(1,90)=1"), "621()=0 607(1)=1 612(0,2)=90 612(1,2)=10 622(0)=1 603(2,0,1)=1 607(1)=1 612(0,2)=10 612(1,2)=90 622(0)=1 603(2,1,9)=1 603(2,0,10)=0 607(1)=1 612(0,2)=90 622(0)=1 603(2,1,1)=1 607(1)=1 612(0,2)=90");
@@ -141,7 +141,7 @@ public final class CarsSentencesTest {
         Script.then(cells(1, "604(0,130)=1 606(0,1,0)=1"), "607(1)=1 609()=0 611(0)=100 607(1)=2 611(0)=200");
     }
 
-    @Says({"what is sent times above, and the rest, by below, cut off: but no more than is left of what is sent; what remains of the division is the new rest. The last one wants what is left."})
+    @Says({"what is sent times above, and the rest, by below, cut off: but no more than is left of what is sent; what remains of the division is the new rest.", "The last one wants what is left."})
     static void shares() {
         Script.then(cells(4, "601(0,3)=1 601(0,1)=1 601(0,2)=1 602(0,3,2,3)=1 602(0,1,1,2)=1 604(0,101)=1 600(0,1000,101,100)=1"), "607(1)=1 612(0,3)=67 612(0,1)=34 612(0,2)=0 613(0,3,0)=1 613(0,1,0)=1 604(0,10)=1 607(1)=2 612(0,3)=74 612(0,1)=37 612(0,2)=0 613(0,3,0)=0 613(0,1,0)=1");
         Script.then(cells(3, "601(0,1)=1 601(0,2)=1 602(0,1,1,4)=1 604(0,3)=1"), "607(1)=1 612(0,1)=0 612(0,2)=3 613(0,1,0)=3 613(0,1,1)=4 604(0,1)=1 607(1)=2 612(0,1)=1 612(0,2)=3 613(0,1,0)=0");

@@ -34,7 +34,7 @@ public final class DeskSentencesTest {
         Script.due("the greatest call", x.act(Integer.MAX_VALUE, 0, 0, 0, 0, 0), RoadHouse.NONE);
     }
 
-    @Says({"with as many of a .. e as it names, in their order (where a truth is named: true, if it is not 0)", "a truth as 1 or 0; a call that answers nothing 0"})
+    @Says({"What a call throws, act() throws.", "BAD is - 1 everywhere", "with as many of a .. e as it names, in their order (where a truth is named: true, if it is not 0)", "a truth as 1 or 0; a call that answers nothing 0"})
     static void truths() {
         RoadHouse x = new RoadHouse();
         Script.due("more numbers than are named", x.act(1, 3, 3, MAX, MAX, MAX), 1);
@@ -67,6 +67,15 @@ public final class DeskSentencesTest {
         Script.then(way(3), "0(1,0,0,5)=1 0(0,0,0,5)=1 0(3,0,0,5)=1 earth(0,6)=1 0(2,0,0,9)=1 0(1,0,0,5)=1 100(50,0,0,0)=0 108(1)=0 114(7,0,2)=50 114(6,0,2)=-1");
         // a cut of week 4 serves no fill of week 3, but one of week 4
         Script.then(way(2), "0(1,0,0,1)=1 earth(0,4)=1 101(10,3,0)=0 108(1)=1 101(10,4,0)=1 103(0,0,0)=1 106(0,1000)=0 108(4)=0 109(0,1,0)=10");
+    }
+
+    @Says("THE DESK keeps, of calls 0, 1, 12 that were not refused, levels of cells (0 where none was told), barred ones, and those with bridges (both: bridged), as they are now; and the weeks of fills.")
+    static void deskKeeps() {
+        // what is refused does not count; what was told before the way was found, or behind it, does
+        Script.then(way(3), "0(1,0,0,5)=1 0(1,0,1000,9)=0 0(1,0,0,10000)=0 0(1,12,0,9)=0 earth(0,0)=1 115(10,0)=50 0(1,0,0,7)=1 earth(0,0)=1 115(10,0)=120 0(1,0,0,0)=1 earth(0,0)=0");
+        Script.then(way(3), "1(1,0)=1 12(1,0,4,1)=0 12(1,0,1,10000)=0 bridge(0,1)=BAD 0(1,0,0,5)=1 earth(0,0)=1 12(1,0,1,1)=1 earth(0,0)=0 bridge(0,1)=2 1(1,0)=0 bridge(0,1)=2 12(2,0,1,1)=1 bridge(1,1)=BAD bridge(0,1)=2");
+        // fills of weeks 4 and 11, that EARTH was told or that came from the way
+        Script.then(way(2), "700'x=1' 701()=1 106(0,0)=0 101(5,4,0)=0 101(0,9,0)=-1 0(0,0,0,9)=1 0(2,0,0,9)=1 earth(0,11)=1 108(2)=0 bill(0)=2 705(0,4,1)=1 705(0,11,1)=1 705(0,9,1)=0");
     }
 
     @Says("P6: for each place in order whose cell is not bridged")

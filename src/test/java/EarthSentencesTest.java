@@ -141,7 +141,7 @@ public final class EarthSentencesTest {
         Script.on("100(10,0,0,0)=0 101(10,0,50)=0 104(0,50,5)=0 104(50,0,9)=1 108(1)=0 110(0)=50 113(0,0)=40 113(0,1)=1 113(1,0)=0 113(1,1)=1 110(0)=50 105(1,0,0)=1 108(1)=0 113(0,0)=450 109(0,0,0)=10 116()=0");
     }
 
-    @Says({"114: The k-th move of a week, by source, then by fill, those of nothing left out: 0 its source, 1 its fill, 2 how much.", "114: BAD: none such."})
+    @Says({"114: Of the k-th move of a week, by source, then by fill, those of nothing left out: 0 its source, 1 its fill, 2 how much.", "114: BAD: none such."})
     static void list() {
         RoadHouse x = Script.on("100(4,0,0,0)=0 106(0,1)=0 101(3,2,0)=0 101(9,3,0)=1 101(5,2,0)=2 114(2,0,0)=-1 108(6)=0 109(0,0,0)=3 109(0,1,0)=1 109(0,2,0)=0 109(1,1,0)=8 109(1,2,0)=5");
         Script.then(x, "114(2,0,0)=0 114(2,0,1)=0 114(2,0,2)=3 114(2,1,0)=1 114(2,1,1)=2 114(2,1,2)=5 114(2,2,0)=-1 114(3,0,2)=1 114(3,1,2)=8 114(3,2,2)=-1 114(0,0,0)=-1 114(-1,0,0)=-1 114(12,0,0)=-1 114(2,-1,0)=-1 114(2,0,-1)=-1 114(2,0,3)=-1");

@@ -191,6 +191,15 @@ public final class SignalsSentencesTest {
         Script.then(plan(2, "A1-1;B1-1"), "501(0,1,15)=1 509()=0 510(4)=15 14*509()=0 510(4)=1 510(2)=0 509()=0 510(4)=0 510(2)=1 510(9)=15");
     }
 
+    @Says("When a phase begins, T is 0, its groups that were not shown have age 0, and none of its groups waits.")
+    static void begins() {
+        Script.then(plan(3, "A2-2;BC1-9"), "507(1,1)=1 509()=0 510(6)=2 510(3)=1 507(2,2)=1 509()=0 510(2)=1 510(6)=0 510(3)=0 510(9)=0 510(10)=0 510(11)=0 509()=0 510(3)=1 510(10)=1");
+        // a group of both phases goes on; one that waits and is not in it still waits
+        Script.then(plan(3, "AB1-1;AC5-9;B1-1"), "507(2,1)=1 509()=0 510(2)=1 510(9)=1 510(10)=0 510(11)=0 507(1,2)=1 509()=0 510(6)=2 510(9)=2 4*509()=0 510(2)=2 510(6)=0");
+        // while it clears, they wait and T stays
+        Script.then(plan(2, "A1-1;B1-1"), "501(0,1,2)=1 507(1,1)=1 509()=0 510(6)=2 510(3)=1 509()=0 510(6)=2 510(3)=1 509()=0 510(6)=0 510(3)=0");
+    }
+
     @Says("FAULTS of a second, the first that holds: 1 two groups that clash are shown (behind it); 2 a group began, though one that clashes with it is not shown and has an age below the seconds between its end and this beginning; 3 a group ended whose age, before it became 0, was below its least time; 4 a group is shown with an age above its most time, and one that clashes with it waits. 0 none.")
     static void faults() {
         Script.then(plan(2, "AB1-1"), "509()=0 501(0,1,0)=1 509()=1 509()=1");
@@ -221,7 +230,7 @@ public final class SignalsSentencesTest {
         Script.then(plan(2, "A2-2;B1-1"), "502(0,3)=1 512(400)=0 514(0,0)=0 514(0,3)=1 514(0,6)=0 514(1,0)=0 514(1,2)=1 514(1,3)=2 514(1,6)=3 514(2,0)=-1 502(0,1)=1 512(400)=1 514(0,0)=-1 512(1)=2 514(0,0)=-1");
     }
 
-    @Says({"515: 0: it never waits; - 1: without end.", "515: NONE: the last proof was not 1, no such group.", "516: The k-th group that can wait without end.", "516: BAD: none such, or the last proof was not 1.", "517: Whether the last proof was 1 and nobody can wait without end."})
+    @Says({"515: of all states in which it does, as many as there can be until it does not", "515: 0: it never waits; - 1: without end.", "515: NONE: the last proof was not 1, no such group.", "516: The k-th group that can wait without end.", "516: BAD: none such, or the last proof was not 1.", "517: Whether the last proof was 1 and nobody can wait without end."})
     static void waits() {
         Script.then(plan(2, "A1-31"), "515(0)=-2 516(0)=-1 517()=0 512(400)=1 515(0)=0 515(1)=-1 515(2)=-2 515(-1)=-2 516(0)=1 516(1)=-1 516(-1)=-1 517()=0 512(9)=2 515(1)=-2 516(0)=-1 517()=0");
         // a call is answered in its own second; then in the next one; then three seconds behind it

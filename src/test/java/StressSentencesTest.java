@@ -111,12 +111,12 @@ public final class StressSentencesTest {
         }
     }
 
-    @Says("410: BAD: lanes are not 1 .. 4, no such part.")
+    @Says({"410: The sum of the shares of the classes 0 .. lanes - 1, by parts.", "410: BAD: lanes are not 1 .. 4, no such part."})
     static void joined() {
         Script.then(lines(some()), "410(0,0)=-1 410(5,0)=-1 410(-1,0)=-1 410(1,-1)=-1 410(1,24)=-1 410(1,12)=10 410(4,12)=10 406(3,110,5)=1 410(3,12)=10 410(4,12)=5 410(4,0)=1 406(4,10,1)=1 410(4,12)=5");
     }
 
-    @Says({"411: The row comes n times in all, 1 .. 1,000,000.", "411: False: none such.", "412: BAD: no such part."})
+    @Says({"411: The row comes n times in all, 1 .. 1,000,000.", "411: False: none such.", "412: The sum of the shares of the classes 0 .. 3, as often as the row comes, by parts.", "412: BAD: no such part."})
     static void repeats() {
         Script.then(lines(some()), "411(0)=0 411(1000001)=0 411(-1)=0 412(0)=1 412(12)=10 411(7)=1 412(0)=7 412(12)=10 411(1000001)=0 412(0)=7 411(1000000)=1 412(0)=100000 412(12)=1 412(-1)=-1 412(24)=-1 412(23)=0 411(1)=1 412(0)=1 406(3,110,5)=1 412(12)=5 406(4,10,1)=1 412(12)=5");
     }

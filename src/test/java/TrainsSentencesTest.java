@@ -73,7 +73,7 @@ public final class TrainsSentencesTest {
         Script.on("300(0,0,7)=1 301()=0 302(0,0,3)=1 304(0,0)=1 305(-1)=0 305(0)=0 305(1)=1");
     }
 
-    @Says("306: BAD: none, another number.")
+    @Says({"306: 3 s of the second train, 4 that train (BAD for both without one)", "306: BAD: none, another number."})
     static void place() {
         Script.then(rising(), "306(0)=-1 306(1)=-1 304(0,0)=4 306(-1)=-1 306(5)=-1 306(0)=10 306(1)=0 306(2)=0 306(3)=-1 306(4)=-1 301()=1 317(0,1)=4 306(0)=10 306(1)=0 306(2)=0 306(3)=6 306(4)=1 304(0,0)=4 306(3)=-1 306(4)=-1");
     }
@@ -88,7 +88,7 @@ public final class TrainsSentencesTest {
         Script.then(rising(), "308(1,0)=-1 307(1,2)=0 307(1,4)=1 308(1,0)=-1 308(1,-1)=-2 304(0,0)=4 308(0,0)=-1 308(0,-1)=-2 308(3,0)=-1 308(3,-1)=-2 308(-1,-1)=-2 308(1,0)=42 308(2,0)=63 308(2,1)=1 308(2,2)=0 308(2,-1)=1 300(11,0,1)=1 308(1,-1)=-2");
     }
 
-    @Says("309: times what lies on a metre (0 .. 1,000,000), by parts.")
+    @Says({"309: times what lies on a metre (0 .. 1,000,000), by parts.", "309: BAD (part - 1: - 2): not so much."})
     static void patch() {
         Script.then(rising(), "309(-1,0)=-1 309(-1,-1)=-2 309(1000001,1)=-1 309(1000001,-1)=-2 309(0,-1)=0 309(0,0)=0 309(0,1)=1 309(1,0)=50 309(1000000,0)=50000000 309(1,1)=1 309(1,2)=0 309(1,-1)=1");
         Script.then(stretches(), "309(2,0)=95 309(2,1)=2");

@@ -99,6 +99,14 @@ public final class WaySentencesTest {
         Script.then(only(0, 5), "5(0,0,5,0,7)=-2 9()=0 5(0,0,5,0,9)=-1 9()=1");
     }
 
+    @Says("A LABEL is a cell; a heading of REACH by which it was come to (for the first cell also 16, none); a number R, for a bridged cell 1 .. its MOST, for others 0")
+    static void bridgeLabels() {
+        // the end's eight; the bridge's, straight on, one for each R; the first cell's, straight on and without heading
+        for (int most = 1; most <= 3; most++) {
+            Script.then(only(0, 2), "12(1,0," + most + ",7)=1 5(0,0,2,0," + (9 + most) + ")=-2 8()=70 5(0,0,2,0," + (7 + most) + ")=-2 8()=0 5(0,0,2,0," + (10 + most) + ")=2 7(0)=70");
+        }
+    }
+
     @Says({"5: - 1: there is none.", "no cell that is barred and not bridged"})
     static void none() {
         Script.then(three(7), "5(0,0,2,0,99)=2 1(1,0)=1 5(0,0,2,0,99)=-1 16()=-1 6(0,0)=-1 12(1,0,1,2)=1 5(0,0,2,0,99)=2 7(0)=20");
@@ -119,7 +127,7 @@ public final class WaySentencesTest {
             + " 5(0,0,2,0,3)=-2 16()=-1 10(1,1)=-3 7(0)=-1 5(0,0,2,0,99)=2 2(1,0,8)=1 0(1,0,0,1)=1 5(0,0,2,0,99)=-1 16()=-1 17()=0 10(1,1)=-3");
     }
 
-    @Says({"6: 2 the heading by which it is come to (16 at first).", "6: BAD: none such."})
+    @Says({"HEADINGS 0 .. 15: 0 (1, 0), 1 (2, 1), 2 (1, 1), 3 (1, 2), 4 (0, 1), 5 (-1, 2), 6 (-1, 1), 7 (-2, 1), and 8 to 15 as 0 to 7 with both signs turned.", "6: 2 the heading by which it is come to (16 at first).", "6: BAD: none such."})
     static void at() {
         Script.on("6(0,0)=-1 5(3,4,5,4,99)=2 6(-1,0)=-1 6(3,0)=-1 6(0,-1)=-1 6(0,3)=-1 6(0,0)=3 6(0,1)=4 6(0,2)=16 6(2,0)=5 6(2,1)=4 6(2,2)=0 6(MAX,0)=-1 6(MIN,0)=-1");
         RoadHouse x = Script.on("2(2,9999,8)=1");
