@@ -72,7 +72,7 @@ public final class RoadHouse {
                 continue;
             }
             int metre = ways.metre(k);
-            int above = ways.levelAt(k) - first - Math.floorDiv(rise * metre, total);
+            int above = ways.levelAt(k) - first - (int) Math.floorDiv((long) rise * metre, (long) total);
             if (above > 0 && soil.addCut(10 * above, kind, week, metre) != BAD) {
                 came++;
             }

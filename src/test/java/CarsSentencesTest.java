@@ -15,6 +15,7 @@ public final class CarsSentencesTest {
     static void cell() {
         Script.on("600(-1,0,0,0)=0 600(24,0,0,0)=0 600(0,-1,0,0)=0 600(0,100001,0,0)=0 600(0,0,-1,0)=0 600(0,0,100001,0)=0 600(0,0,0,-1)=0 600(0,0,0,101)=0 600(0,0,0,0)=1 600(23,100000,100000,100)=1 604(23,100000)=1 604(23,100001)=0");
         Script.on("600(0,100,9,9)=1 604(0,50)=1 600(0,49,9,9)=0 604(0,100)=1 604(0,50)=1 600(0,50,9,9)=1 604(0,51)=0 621()=0 604(0,10)=1 621()=1 600(0,49,9,9)=0 600(0,50,8,8)=1 604(0,0)=1 600(0,9,9,9)=0 600(0,49,9,9)=0 600(0,50,9,9)=1");
+        Script.on("600(7,100,9,9)=1 604(7,50)=1 621()=0 604(7,10)=1 600(7,49,9,9)=0 600(7,50,9,9)=1 600(8,0,9,9)=1");
     }
 
     @Says({"601: False: no such two, there already, or 4 from a or to b.", "JOINS lead from a cell to another one, at most 4 from each and 4 to each"})
@@ -28,13 +29,14 @@ public final class CarsSentencesTest {
         Script.then(cells(3, "601(0,1)=1 601(0,2)=1 602(0,1,1,3)=1 604(0,100)=1"), "607(1)=1 612(0,1)=33 612(0,2)=67 613(0,1,0)=1 613(0,1,1)=3 621()=0 602(0,1,1,4)=1 613(0,1,0)=0 622(0)=1 613(0,1,0)=0 613(0,1,1)=4 602(0,1,5,4)=0 613(0,1,1)=4");
         // what is refused leaves the rest
         Script.then(cells(3, "601(0,1)=1 601(0,2)=1 602(0,1,1,3)=1 604(0,100)=1"), "607(1)=1 621()=0 602(0,1,4,3)=0 602(0,2,1,2)=1 613(0,1,0)=1 622(0)=1 613(0,1,0)=1");
+        Script.then(cells(6, "601(5,1)=1 601(3,1)=1 601(3,2)=1 602(3,1,1,3)=1 604(3,100)=1"), "607(1)=1 613(3,1,0)=1 621()=0 602(3,1,2,7)=1 613(3,1,0)=0 622(0)=1 613(3,1,0)=0 613(3,1,1)=7 613(5,1,0)=0");
         // at first all goes by the last one
         Script.then(cells(3, "601(0,1)=1 601(0,2)=1 604(0,50)=1"), "607(1)=1 612(0,1)=0 612(0,2)=50");
     }
 
     @Says({"What is wanted and not taken stays.", "603: False: none such.", "and a RANK 0 .. 9 (0)", "From the joins to it, those with lesser rank first, of one rank the lesser cell first, it takes what each one wants, as far as it goes."})
     static void rank() {
-        Script.on("603(1,0,0)=0 601(0,1)=1 603(0,1,0)=0 603(1,0,-1)=0 603(1,0,10)=0 603(1,0,9)=1 603(24,0,0)=0 603(1,-1,0)=0");
+        Script.on("603(1,0,0)=0 601(0,1)=1 603(0,1,0)=0 603(1,0,-1)=0 603(1,0,10)=0 603(1,0,9)=1 603(1,0,0)=1 603(24,0,0)=0 603(1,-1,0)=0");
         Script.then(cells(3, "601(1,2)=1 601(0,2)=1 604(0,90)=1 604(1,90)=1"), "621()=0 607(1)=1 612(0,2)=90 612(1,2)=10 622(0)=1 603(2,0,1)=1 607(1)=1 612(0,2)=10 612(1,2)=90 622(0)=1 603(2,1,9)=1 603(2,0,10)=0 607(1)=1 612(0,2)=90 622(0)=1 603(2,1,1)=1 607(1)=1 612(0,2)=90");
     }
 
@@ -76,17 +78,21 @@ public final class CarsSentencesTest {
     @Says("SETTINGS with a step hold from that step on, until the next one of the same kind for the same cell; of two with one step the one told later.")
     static void settings() {
         Script.then(cells(2, "604(0,1000)=1 606(0,2,0)=1 606(0,2,1)=1 614(0,3,1,10)=1 606(1,3,0)=1 607(2)=2 609()=200 607(1)=3 609()=210 606(0,5,0)=1 606(0,4,1)=1 607(1)=4 609()=220 607(1)=5 609()=220 606(0,6,1)=1 606(0,6,0)=1"), "607(2)=7 609()=220");
+        // told first, for a later step: it holds from then on
+        Script.then(cells(1, "606(0,4,0)=1 606(0,2,1)=1 606(0,3,1)=1 604(0,1000)=1 607(3)=3 609()=300"), "607(1)=4 609()=300");
     }
 
     @Says({"615: A cell is a ramp with a LEAST of 1 .. 20, or none (0): what it was.", "615: BAD: none such.", "A ramp with LEAST m sends in those steps alone in which (t - 1) modulo 2 m is below m."})
     static void meter() {
         Script.then(cells(1, "615(-1,1)=-1 615(24,1)=-1 615(0,-1)=-1 615(0,21)=-1 615(0,20)=0 615(0,21)=-1 615(0,0)=20 615(0,1)=0 615(0,2)=1 604(0,1000)=1 607(1)=1 609()=100 607(1)=2 609()=200 607(1)=3 609()=200 607(1)=4 609()=200 607(1)=5 609()=300 615(0,1)=2 607(1)=6 609()=300 607(1)=7 609()=400"), "615(0,0)=1 607(1)=8 609()=500");
+        Script.then(cells(1, "615(0,3)=0 604(0,1000)=1"), "607(3)=3 609()=300 607(3)=6 609()=300 607(1)=7 609()=400 607(5)=12 609()=600 607(1)=13 609()=700");
     }
 
     @Says({"616: A lane of a cell keeps so much of its room (kind 1; 0 .. 100,000), or nothing (kind 0): what it kept.", "616: BAD: none such.", "and of (room less what its lane keeps, less what is in it) times speed by 100, cut off; not below 0"})
     static void lane() {
         Script.on("616(-1,1,1)=-1 616(24,1,1)=-1 616(0,-1,1)=-1 616(0,2,1)=-1 616(0,1,-1)=-1 616(0,1,100001)=-1 616(0,1,100000)=0 616(0,1,0)=100000 616(0,1,5)=0 616(0,0,7)=5 616(0,0,0)=0");
         Script.on("600(0,100,90,100)=1 605(0,1,999)=1 606(0,1,0)=1 616(0,1,95)=0 607(1)=1 608(0)=5 607(1)=2 608(0)=5 616(0,1,96)=95 607(1)=3 608(0)=5 616(0,0,0)=96 600(0,100,90,10)=1 607(1)=4 608(0)=14 607(1)=5 608(0)=22 600(0,100,3,99)=1 607(1)=6 608(0)=25 610()=1");
+        Script.on("600(0,100,100,99)=1 605(0,1,999)=1 606(0,1,0)=1 607(1)=1 608(0)=99 607(1)=2 608(0)=99");
     }
 
     @Says({"617: So much (any number) was measured in a cell behind a step of 0 .. 200 (done or to come: it counts as soon as it is done; 0: now, as long as no step was done).", "617: False: none such; 60 were told."})
@@ -99,6 +105,7 @@ public final class CarsSentencesTest {
     static void differs() {
         Script.on("618(0,0)=-1 617(3,0,MIN)=1 617(4,0,1)=1 617(5,0,0)=1 617(6,0,MAX)=1 618(0,0)=3 618(0,1)=0 618(0,2)=-2147483648 618(1,0)=4 618(1,2)=-1 618(2,0)=6 618(2,2)=-2147483647 618(3,0)=-1 618(-1,0)=-1 618(0,3)=-1 618(0,-1)=-1 607(1)=1 618(0,0)=-1");
         Script.then(cells(1, "604(0,1000)=1 617(0,1,MIN)=1 621()=0 607(1)=1 618(0,1)=1 618(0,2)=-2147482748"), "622(0)=1 618(0,2)=-1 607(1)=1 618(0,2)=-2147482748");
+        Script.then(cells(6, "604(5,150)=1 604(4,999)=1 617(5,1,49)=1 617(4,1,899)=1 617(3,0,1)=1 618(0,0)=3 607(1)=1 618(0,0)=5 618(0,2)=1"), "618(1,0)=-1");
     }
 
     @Says({"619: False: no such cells (cell, act), above is below 0; there are 12.", "It is HELD, if some rule says so: a rule (cell, above, act) holds the cell act back, if there is more than above in the cell."})
@@ -126,12 +133,14 @@ public final class CarsSentencesTest {
     @Says({"623: How many cells had no room left (room less the lane's, as it is set now) behind a step that was done.", "623: BAD: none such."})
     static void over() {
         Script.then(cells(2, "600(0,50,0,0)=1 604(0,50)=1 623(0)=-1 623(1)=-1 607(1)=1 623(0)=-1 623(2)=-1 623(-1)=-1 623(1)=23 616(1,1,999)=0 623(1)=23 616(1,1,1000)=999 623(1)=24 616(1,1,1001)=1000 623(1)=24 600(0,51,0,0)=1 623(1)=23 616(0,1,1)=0"), "623(1)=24 604(0,0)=1 623(1)=24");
+        Script.then(cells(6, "604(5,1000)=1 604(4,999)=1 606(5,1,0)=1 606(4,1,0)=1 607(1)=1 623(1)=19"), "616(4,1,1)=0 623(1)=20");
     }
 
     @Says({"624: BAD: none such.", "TOLL of a cell in a step: what left it then, 10 times in steps with (t - 1) modulo 60 below 20, else 4 times."})
     static void toll() {
         Script.on("600(0,100000,3,100)=1 604(0,1000)=1 624(0,1)=-1 607(61)=61 624(-1,1)=-1 624(24,1)=-1 624(0,0)=-1 624(0,62)=-1 624(0,-1)=-1 624(0,1)=30 624(0,20)=30 624(0,21)=12 624(0,60)=12 624(0,61)=30 624(1,1)=0 624(23,61)=0");
         Script.then(cells(2, "601(0,1)=1 600(1,30,30,100)=1 604(0,100)=1 606(1,1,0)=1"), "607(2)=2 624(0,1)=300 624(0,2)=0 624(1,1)=0");
+        Script.then(cells(6, "604(5,150)=1 604(4,7)=1"), "607(2)=2 624(5,1)=1000 624(5,2)=500 624(4,1)=70 624(4,2)=0 624(3,1)=0");
     }
 
     @Says("A cell CAN SEND the lesser of what is in it and its cap; it SENDS that, if its signal is green, it is not held, and, if it is a ramp, in such steps; else 0. An exit's all goes OUT.")

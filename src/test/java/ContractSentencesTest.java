@@ -58,6 +58,11 @@ public final class ContractSentencesTest {
         reads("x=a y=b", -4);
         reads("x=a.y=b", -4);
         reads("x=a;y=A", -7);
+        reads("x=a;y", -6);
+        reads("x=a;y b", -6);
+        reads("x=a;y==b", -7);
+        reads("x=a;y=b;z;", -10);
+        Script.on("700'x=a+1;' 701()=-7 700'x=a*2+1*b;y' 701()=-12 700'x=a' 701()=1 703(1,5,3,2)=0 704(0,0,0)=1 705(0,0,0)=5");
     }
 
     @Says({"An ITEM is a NAME (one to eight small letters)", "Items have different names", "701: a name that was"})
@@ -170,6 +175,9 @@ public final class ContractSentencesTest {
         measures("a+b*c", 10, 3, 2, 16);
         measures("(a+b)*c", 10, 3, 2, 26);
         measures("a/b*c", 10, 3, 2, 6);
+        measures("k+(a-b)*c", 10, 3, 2, 15);
+        measures("k-(a-b)/c-(c-a)*b", 10, 3, 2, 22);
+        measures("a-(b+(c-a)*(b-k))*c", 10, 3, 2, 36);
         measures("a/b/c", -21, 2, 3, -3);
         measures("a/b", -7, 2, 0, -3);
         measures("a/b", 7, -2, 0, -3);
@@ -224,6 +232,7 @@ public final class ContractSentencesTest {
     @Says({"710: above / below (0 .. 1,000 by 1 .. 1,000): how many changes there are.", "710: BAD: none such; there are 20."})
     static void change() {
         RoadHouse x = items("x=1", "702(0,60)=1 703(0,0,0,0)=0 704(0,0,11)=1 710(-1,1,1,0)=-1 710(1,1,1,0)=-1 710(0,-1,1,0)=-1 710(0,1001,1,0)=-1 710(0,1,0,0)=-1 710(0,1,1001,0)=-1 710(0,1,-1,0)=-1 710(0,1,1,-1)=-1 710(0,1,1,12)=-1 707(11,0)=60 710(0,1000,1000,0)=1 710(0,1,1000,11)=2 707(11,0)=0");
+        Script.then(items("x=1;y=1", "702(0,60)=1 702(1,60)=1 703(0,0,0,0)=0 704(0,0,3)=1 704(0,1,4)=1 710(1,1,2,0)=1"), "707(3,0)=60 707(4,0)=30 710(0,0,1,4)=2 707(3,0)=60 710(0,0,1,3)=3 707(3,0)=0 707(4,0)=30");
         Script.then(x, "18*710(0,1000,1,11)=3+# 710(0,1,1,0)=-1 710(0,0,1,0)=-1 707(11,0)=0 702(0,1000)=1 707(11,0)=" + cut(1000, 18));
     }
 
@@ -242,7 +251,7 @@ public final class ContractSentencesTest {
 
     @Says({"712: What is kept, 0 <= above <= below <= 1,000, below not 0.", "712: False: none such."})
     static void keep() {
-        Script.then(items("x=1", "702(0,7)=1 703(0,0,0,0)=0 704(0,0,0)=1 707(0,1)=0 712(-1,1)=0 712(2,1)=0 712(0,0)=0 712(1,1001)=0 712(1001,1001)=0 712(-1,-1)=0 707(0,1)=0 712(0,1)=1 712(1000,1000)=1 707(0,1)=7 707(0,4)=0 712(1,2)=1 707(0,1)=3 712(3,2)=0"), "707(0,1)=3 702(0,-7)=1 707(0,1)=0 707(0,4)=-7");
+        Script.then(items("x=1", "702(0,7)=1 703(0,0,0,0)=0 704(0,0,0)=1 707(0,1)=0 712(-1,1)=0 712(2,1)=0 712(0,0)=0 712(1,1001)=0 712(1001,1001)=0 712(-1,-1)=0 707(0,1)=0 712(0,1)=1 712(1000,1000)=1 707(0,1)=7 707(0,4)=0 712(1,2)=1 707(0,1)=3 712(3,2)=0"), "707(0,1)=3 702(0,-7)=1 707(0,1)=0 707(0,4)=-7 702(0,1)=1 712(1,1)=1 707(0,1)=1 702(0,0)=1 707(0,1)=0");
     }
 
     @Says({"713: What was kept up to a month, less what came back up to it.", "713: BAD: none such.", "714: All kept up to a month comes back in it, as much as it will be (also of entries that come later): how much that is now.", "714: BAD: no such month; a month (any) was told already.", "All that was kept up to some month comes BACK in it, once."})
@@ -270,7 +279,7 @@ public final class ContractSentencesTest {
     @Says({"718: what is left over goes in units to the firms with the greatest remains, of equal ones the lesser firm first; with the net's sign", "718: 0 without weights.", "718: BAD (here - 1): none such."})
     static void share() {
         RoadHouse x = items("x=1", "702(0,10)=1 703(0,0,0,0)=0 704(0,0,0)=1 718(-1,0)=-1 718(4,0)=-1 718(0,-1)=-1 718(0,12)=-1 718(0,0)=0 718(3,0)=0 3*717(#+1,1)=1 718(0,0)=0 718(1,0)=4 718(2,0)=3 718(3,0)=3 702(0,-10)=1 718(1,0)=-4 718(2,0)=-3 718(3,0)=-3 718(0,11)=0");
-        Script.then(x, "702(0,11)=1 718(1,0)=4 718(2,0)=4 718(3,0)=3 717(0,2)=1 718(0,0)=5 718(1,0)=2 718(2,0)=2 718(3,0)=2 702(0,8)=1 718(0,0)=3 718(1,0)=2 718(2,0)=2 718(3,0)=1 4*717(#,0)=1 718(0,0)=0 717(2,1)=1 718(2,0)=8 718(1,0)=0");
+        Script.then(x, "702(0,11)=1 718(1,0)=4 718(2,0)=4 718(3,0)=3 717(0,2)=1 718(0,0)=5 718(1,0)=2 718(2,0)=2 718(3,0)=2 702(0,8)=1 718(0,0)=3 718(1,0)=2 718(2,0)=2 718(3,0)=1 702(0,1)=1 718(0,0)=1 718(1,0)=0 718(3,0)=0 717(0,3)=1 718(0,0)=1 718(1,0)=0 702(0,-1)=1 718(0,0)=-1 718(1,0)=0 702(0,8)=1 4*717(#,0)=1 718(0,0)=0 717(2,1)=1 718(2,0)=8 718(1,0)=0");
     }
 
     @Says("718: cut off (exactly, however great the net is)")
@@ -335,6 +344,12 @@ public final class ContractSentencesTest {
         billIs(x, "x:0=0;abcdefgh:0=0;");
         Script.then(x, "702(0,-100)=1 702(1,-9)=1 704(0,0,0)=1 704(0,0,11)=1 704(0,1,5)=1 711(0,1,2)=1 710(0,3,2,11)=1");
         billIs(x, "x:12=-1500;abcdefgh:" + 9999L * 9999 * 9999 * 9999 * 100 + "=" + 9999L * 9999 * 9999 * 9999 * 100 * -9 + ";");
+        RoadHouse y = items("x=a", "702(0,1)=1 703(0,10,0,0)=0 704(0,0,0)=1");
+        billIs(y, "x:10=10;");
+        Script.then(y, "719(0,99,0)=1 702(0,-1)=1");
+        billIs(y, "x:99=-99;");
+        Script.then(y, "719(0,-100,0)=1 702(0,10)=1");
+        billIs(y, "x:-100=-1000;");
         Script.then(x, "719(0,-10,0)=3 702(0,1)=1");
         billIs(x, "x:-20=-20;abcdefgh:" + 9999L * 9999 * 9999 * 9999 * 100 + "=" + 9999L * 9999 * 9999 * 9999 * 100 * -9 + ";");
     }

@@ -110,6 +110,19 @@ public final class DeskSentencesTest {
         Script.on("5(0,0,2,2,99999)=2 1(1,1)=1 12(1,1,1,1)=1 bridge(0,1)=2 214(4)=14 207(2,0,2)=0 208(0,0,2,0)=7889 208(0,0,2,1)=1536 bridge(0,2)=2 207(2,0,2)=0 208(0,0,2,0)=7889 208(0,0,2,1)=3072");
     }
 
+    @Says("P7: with that stiffness (1 .. 12)")
+    static void bridgeStiffness() {
+        // in the middle of two beams of 5, as stiff as s, held at both ends and in the middle: the same by s
+        RoadHouse x = way(3);
+        bridged(x, 1);
+        for (int s = 1; s <= 12; s++) {
+            int whole = 2875;
+            int by = 1536 * s;
+            int g = java.math.BigInteger.valueOf(whole).gcd(java.math.BigInteger.valueOf(by)).intValue();
+            Script.then(x, "bridge(0," + s + ")=2 207(2,0,2)=0 208(0,0,2,0)=" + whole / g + " 208(0,0,2,1)=" + by / g + " 214(4)=10");
+        }
+    }
+
     @Says({"P8: BAD: some value is not told, or has a part 2 or 3 that is not 0, or a part 0 or 1 that is 10^15 or more, or is, times 1,000 and so cut off, farther from 0 than 1,000,000: nothing is changed.", "P8: which is cleared before (call 322)"})
     static void rowOf() {
         RoadHouse x = Script.on("301()=0 302(0,0,1)=1 300(7,5,1)=1 304(0,0)=1 305(0)=5 rowOf(0)=BAD rowOf(-1)=BAD rowOf(8)=BAD 305(0)=5 320()=1 203(0,1,0)=1 207(0,0,0)=0 rowOf(0)=BAD 305(0)=5 203(0,1,1)=0 whole(0)=0 rowOf(0)=5 305(0)=-1 320()=0 304(0,0)=5 whole(0)=1");
@@ -125,8 +138,11 @@ public final class DeskSentencesTest {
         RoadHouse x = Script.on("200'F12x1.' 201()=1 207(2,0,4)=0 301()=0 302(0,0,1)=1 rowOf(0)=5 318(0,4,0)=576 318(0,3,0)=729 318(0,3,1)=2 304(0,0)=5 306(0)=48");
         // two of 12: at the end 24 cubed by 3 is 4,608: too far
         Script.then(x, "200'F12x1.12x1.' 201()=2 207(2,1,4)=0 rowOf(0)=BAD 305(0)=576 202(1,12,12)=1 rowOf(0)=BAD 202(0,12,5)=1 202(1,12,5)=1 rowOf(0)=9 305(0)=-1 318(0,8,0)=4608 318(0,8,1)=5 318(0,4,0)=288 304(0,0)=9 306(0)=96");
+        // just 1,000 is told, times 1,000 a million; a little more than a million is too far
+        Script.on("200'F1x9.7x1.8x9.' 201()=3 207(2,2,4)=0 301()=0 302(0,0,1)=1 208(0,2,4,0)=1000 208(0,2,4,1)=1 rowOf(0)=13 318(0,12,0)=1000 318(0,12,1)=1");
+        Script.on("200'F9x8.10x3.9x4.' 201()=3 207(2,2,2)=0 301()=0 302(0,0,1)=1 300(5,7,1)=1 304(0,0)=1 208(0,2,4,0)=576001 208(0,2,4,1)=576 rowOf(0)=BAD 305(0)=7 202(2,9,5)=1 rowOf(0)=13 305(0)=-1");
         // beams of 3, 5 and 1 between the same places as theirs; 1 / 3 is cut off towards 0
-        Script.on("200'F3x1S5x1.1x1F' 201()=3 207(3,0,0)=0 301()=0 302(0,0,1)=1 rowOf(0)=13 302(0,60,0)=1 302(0,1,0)=1 300(36,0,1)=0 300(37,0,1)=1 300(38,0,1)=0");
+        Script.on("200'F3x1S5x1.1x1F' 201()=3 207(3,0,0)=0 301()=0 302(0,0,1)=1 rowOf(0)=13 318(0,0,0)=1 318(0,0,1)=1 302(0,60,0)=1 302(0,1,0)=1 300(36,0,1)=0 300(37,0,1)=1 300(38,0,1)=0");
         Script.on("200'F3x1S' 201()=1 207(0,0,0)=0 301()=0 302(0,0,1)=1 208(0,0,1,-1)=-1 208(0,0,1,0)=63 208(0,0,1,1)=128 rowOf(0)=5 318(0,1,-1)=-1 318(0,1,0)=123 318(0,1,1)=250 300(12,0,1)=0 300(13,0,1)=1");
     }
 
@@ -152,6 +168,13 @@ public final class DeskSentencesTest {
         Script.then(x, "621()=0 500(2)=0 drive(5)=BAD");
     }
 
+    @Says("P10: for each group whose being shown is not what drive() told its cell (the one with its number) last")
+    static void driveSixGroups() {
+        // all six cells get a red, but the one whose group is shown: each of them in its turn
+        RoadHouse x = Script.on("500(6)=0 504'A1-1;B1-1;C1-1;D1-1;E1-1' 505()=5 8*600(#,900,10,100)=1 8*604(#,900)=1 drive(1)=1");
+        Script.then(x, "608(0)=900 608(1)=890 608(2)=900 608(3)=900 608(4)=900 608(5)=900 608(6)=890 608(7)=890 drive(2)=2 608(2)=890 608(3)=890 608(4)=900 608(5)=900 504'F1-9' 505()=1 508(1,1)=1 drive(1)=1 608(5)=890 608(0)=900");
+    }
+
     @Says("P10: A second with a fault is done by the machine alone.")
     static void driveFault() {
         Script.then(crossing(), "501(0,1,0)=1 502(0,15)=1 drive(100)=2 607(0)=2 510(0)=3 drive(100) whole(0)=2");
@@ -174,6 +197,11 @@ public final class DeskSentencesTest {
         // 60 entries: shapes come all the same, until there are 40
         Script.then(x, "57*704(0,0,0)=1 bill(0)=1 bill(0)=0 bill(0)=0 703(0,1,1,1)=5 34*703(0,0,0,0)=6+# 703(0,0,0,0)=-1 bill(0)=0 whole(0)=7");
         Script.on("700'x=a' 701()=1 40*703(0,0,0,0)=# 108(0)=0 100(5,0,0,0)=0 101(3,2,10)=0 108(1)=0 bill(0)=0 704(39,0,0)=1");
+    }
+
+    @Says("P11: with v moved by the plan, v above 0")
+    static void billOne() {
+        Script.on("700'x=a*1000+b;y=1' 701()=2 100(1,0,0,0)=0 101(1,5,3)=0 101(2,6,3)=1 106(0,0)=0 108(4)=0 109(0,0,0)=1 109(0,1,0)=0 109(1,1,0)=2 bill(0)=2 705(0,5,0)=1 705(0,6,0)=2 703(0,0,0,0)=2");
     }
 
     @Says({"P11: for each source and each fill, in order, with v moved by the plan, v above 0 and below 10,000,000: a shape (call 703) of kind 0 with v by 1,000, cut off, what remains, and the cents of a unit (9,999 at most), and a plain entry of it (call 704) in that item, in the fill's week as its month"})

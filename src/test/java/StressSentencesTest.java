@@ -118,7 +118,7 @@ public final class StressSentencesTest {
 
     @Says({"411: The row comes n times in all, 1 .. 1,000,000.", "411: False: none such.", "412: The sum of the shares of the classes 0 .. 3, as often as the row comes, by parts.", "412: BAD: no such part."})
     static void repeats() {
-        Script.then(lines(some()), "411(0)=0 411(1000001)=0 411(-1)=0 412(0)=1 412(12)=10 411(7)=1 412(0)=7 412(12)=10 411(1000001)=0 412(0)=7 411(1000000)=1 412(0)=100000 412(12)=1 412(-1)=-1 412(24)=-1 412(23)=0 411(1)=1 412(0)=1 406(3,110,5)=1 412(12)=5 406(4,10,1)=1 412(12)=5");
+        Script.then(lines(some()), "411(0)=0 411(1000001)=0 411(-1)=0 412(0)=1 412(12)=10 411(7)=1 412(0)=7 412(12)=10 411(1000001)=0 412(0)=7 411(1000000)=1 412(0)=100000 412(12)=1 412(-1)=-1 412(24)=-1 412(23)=0 411(1)=1 412(0)=1 406(3,110,5)=1 412(0)=1 412(12)=5 406(4,10,1)=1 412(0)=1 412(12)=5");
     }
 
     @Says({"413: The last whole year, 0 .. 100,000, up to which the share of a class, if the row comes so often per year (1 .. 1,000,000,000), is below 1.", "413: BAD: none such."})
@@ -135,6 +135,7 @@ public final class StressSentencesTest {
     @Says({"415: a half one counting half (cut off in the end)", "415: BAD: n is below 0."})
     static void bolt() {
         Script.then(some(), "415(-1)=-1 415(MIN)=-1 415(0)=2 415(20)=2 415(21)=1 415(100)=1 415(101)=0 415(110)=0 415(111)=0 408(2,1)=1 415(21)=1 415(220)=0");
+        Script.on("400(0)=1 400(100)=1 400(20)=1 400(80)=1 400(40)=1 400(60)=1 400(-10)=1 401()=2 415(0)=3 415(20)=3 415(21)=2 415(60)=2 415(61)=1 415(101)=0");
         Script.on("415(0)=0 400(0)=1 415(0)=0 400(5)=1 415(0)=0 400(0)=1 415(5)=1 415(6)=0");
     }
 
@@ -159,6 +160,7 @@ public final class StressSentencesTest {
         Script.due("crack", x.crack(2, 3, 1), -1);
         Script.then(x, "419(0,0)=-1 418(3)=1 401()=0 404()=0 405()=1 403(0)=-2 419(0,0)=3 419(0,1)=1 419(0,2)=3 419(0,3)=20 419(0,4)=-1 419(0,-1)=-1 419(1,0)=-1 419(-1,0)=-1 418(3)=1 419(1,0)=3 419(1,1)=0 419(1,2)=0 419(1,3)=0 419(0,3)=20"
             + " 400(0)=1 400(50)=1 409(0,12)=20 412(0)=7 412(12)=20 417(2)=2 400(45)=1 409(0,12)=20 400(-5)=1 402(0,0)=-1 419(0,1)=1");
+        Script.on("400(0)=1 400(2)=1 400(1)=1 400(2)=1 401()=1 404()=2 418(9)=1 419(0,3)=1 419(0,1)=1 419(0,2)=2");
         Script.due("crackAt", x.crackAt(0), 2.0);
     }
 
@@ -207,6 +209,9 @@ public final class StressSentencesTest {
         }
         Script.due("refused ones are not told", x.crack(3, 5, 101), -1);
         Script.due("refused ones are not told", x.crack(3, 1000000, 1), -1);
+        Script.due("refused ones are not told", x.crack(3, 5, 0), -1);
+        Script.due("refused ones are not told", x.crack(0, 5, 1), -1);
+        Script.due("refused ones are not told", x.crack(3, 3, 1), -1);
         Script.due("as before", x.crackAt(1), 6.0);
         Script.then(x, "418(0)=1");
         Script.due("the row now", x.crackAt(100), 4.0);

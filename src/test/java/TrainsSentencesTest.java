@@ -104,6 +104,10 @@ public final class TrainsSentencesTest {
     @Says({"310: begins (end 0), or ends (1), cut off.", "310: (Touching 0 at a corner parts two of them; with fewer than two corners there is none.)", "310: BAD: none such."})
     static void covered() {
         Script.then(stretches(), "310(0,0)=0 310(0,1)=10 310(1,0)=10 310(1,1)=25 310(2,0)=42 310(2,1)=50 310(3,0)=-1 310(3,1)=-1 310(-1,0)=-1 310(0,2)=-1 310(0,-1)=-1");
+        // values of 1 are above 0; where it is 0 before, it begins at the last corner that is 0
+        Script.on("300(0,1,1)=1 300(10,1,1)=1 300(20,2,1)=1 311(-1)=1 310(0,0)=0 310(0,1)=20 311(0)=0 310(1,0)=-1");
+        Script.on("300(0,0,1)=1 300(5,0,1)=1 300(10,1,1)=1 300(12,0,1)=1 300(14,0,1)=1 311(-1)=1 310(0,0)=5 310(0,1)=12 311(0)=1 310(1,0)=-1");
+        Script.on("300(5,0,1)=1 300(10,3,1)=1 311(-1)=1 310(0,0)=5 310(0,1)=10 311(0)=0");
         Script.on("310(0,0)=-1 300(5,9,1)=1 310(0,0)=-1 310(0,1)=-1 300(8,0,1)=1 310(0,0)=5 310(0,1)=8 310(1,0)=-1 300(9,0,1)=1 310(0,1)=8 310(1,0)=-1 300(20,-5,1)=1 310(1,0)=-1");
     }
 
@@ -203,6 +207,9 @@ public final class TrainsSentencesTest {
         Script.on("300(0,-10,1)=1 300(10,10,1)=1 301()=0 302(0,0,3)=1 302(0,10,1)=1 304(0,0)=3 305(0)=20 321()=0");
         // so backward alone
         Script.on("300(0,0,1)=1 300(10,-10,1)=1 300(20,10,1)=1 300(30,-10,1)=1 301()=0 302(0,0,3)=1 302(0,10,1)=1 304(0,0)=5 305(0)=20 321()=1 304(0,1)=10 305(0)=20 321()=0");
+        // before place 0 backward alone; and behind place 400 forward
+        Script.on("300(0,-10,1)=1 300(10,10,1)=1 300(20,-10,1)=1 300(30,0,1)=1 301()=0 302(0,0,1)=1 302(0,10,3)=1 304(0,0)=5 305(0)=20 321()=1 304(0,1)=10 305(0)=20 321()=0");
+        Script.on("300(370,0,1)=1 300(380,-10,1)=1 300(390,10,1)=1 300(400,-10,1)=1 301()=0 302(0,0,1)=1 302(0,10,3)=1 304(0,0)=5 305(0)=20 321()=0");
         // all is below 0; where nothing stands on the row there is no effect
         Script.on("300(3,-5,1)=1 300(9,-5,1)=1 301()=0 302(0,0,2)=1 304(0,1)=4 321()=1");
     }
@@ -210,6 +217,31 @@ public final class TrainsSentencesTest {
     @Says("322: The row is empty; what was run is gone; nothing was tried.")
     static void clearRow() {
         Script.then(rising(), "304(0,0)=4 322()=0 305(0)=-1 320()=0 311(-1)=0 309(1,0)=0 300(0,1,1)=1 304(0,0)=2 319(0)=2 322()=0 14*300(#,1,1)=1");
+    }
+
+    @Says({"each stands so far behind the one before it (the first one 0)", "FORWARD the others are at lesser places, by how far they are behind it in all, BACKWARD at greater ones"})
+    static void behind() {
+        // 3, 3 + 5 and 3 + 5 + 1 behind the first one
+        Script.on("300(100,1,1)=1 301()=0 302(0,0,1)=1 302(0,3,10)=1 302(0,5,100)=1 302(0,1,1000)=1 304(0,1)=8 305(0)=1000 306(0)=109 306(1)=0 318(0,0,0)=1 318(0,1,0)=10 318(0,2,0)=100 318(0,3,0)=1000");
+        // backward at 94 the second one is at 97, where the value is, and the first one before the row
+        Script.on("300(97,5,1)=1 300(98,9,1)=1 300(100,-90,1)=1 301()=0 302(0,0,1)=1 302(0,3,7)=1 304(0,0)=5 305(0)=63 306(0)=101 304(0,1)=10 305(0)=63 306(1)=0 302(0,1,8)=1 304(0,0)=7 305(0)=103 306(0)=101 304(0,1)=14 305(0)=107 306(0)=94 306(1)=1");
+        Script.on("300(0,1,1)=1 300(10,2,1)=1 301()=0 302(0,0,5)=1 302(0,10,5)=1 302(0,10,5)=1 304(0,0)=4 305(0)=15 306(0)=10 322()=0 300(0,2,1)=1 300(10,-1,1)=1 302(0,1,-1)=0 304(0,1)=8 305(0)=10 306(0)=0 306(1)=0");
+        Script.on("300(0,-9,1)=1 300(10,1,1)=1 300(20,6,1)=1 301()=0 302(0,0,1)=1 302(0,10,2)=1 304(0,0)=4 305(0)=12 306(0)=30 304(0,1)=8 305(0)=13 306(0)=10 306(1)=1 302(0,1,0)=1 300(21,-6,1)=1 304(0,0)=8 305(0)=12 306(0)=30 304(0,1)=17 305(0)=13 306(0)=10 306(1)=1");
+    }
+
+    @Says("317: with the first one at each place tried for it alone, the second one with its first axle at the least and at the most gap, and where one of its axles is at a corner between these")
+    static void gaps() {
+        // the first one's last axle 7 behind; the second one's second axle 4 behind its first
+        RoadHouse x = Script.on("300(0,0,1)=1 300(10,10,1)=1 300(20,0,1)=1 301()=0 302(0,0,1)=1 302(0,7,2)=1 301()=1 302(1,0,4)=1 302(1,4,8)=1 304(0,0)=6 305(0)=23 306(0)=17");
+        // s 0, 7, 10, 17, 20, 27: the tail - 7, 0, 3, 10, 13, 20; between 2 and 9 there is tail, tail - 4, tail - 10, tail - 14 and so on
+        Script.then(x, "303(1,2,9)=1 317(0,1)=16 305(0)=106 306(0)=20 306(3)=11 303(1,2,2)=1 317(0,1)=6 306(0)=20 306(3)=11 305(0)=106 303(1,3,3)=1 317(0,1)=6 305(0)=102 306(0)=20 306(3)=10 303(1,0,300)=1 317(0,1)=22 305(0)=114 306(0)=20 306(3)=13");
+    }
+
+    @Says({"CASES are a text: a case, and any number of times ; and a case.", "so many hundredths of the worst, of the area where the row is above 0, of the worst times what all lanes count together"})
+    static void casesAnew() {
+        // what was read before is gone; each case begins with a + ; areas and lanes that are fractions
+        Script.then(stretches(), "312'100P;100P-50P' 313()=2 315(0,0)=95 315(0,1)=4 315(1,0)=95 315(1,1)=8 312'100P-200P;100P' 313()=2 315(0,-1)=-1 315(0,0)=95 315(1,-1)=1 315(1,0)=95 315(1,1)=4 314()=2");
+        Script.then(stretches(), "312'1P+1P+1P+1P+1P+1P;1P+1P+1P+1P+1P+1P+1P' 313()=-36 312'7P;9L' 313()=2 312'1P' 313()=1 315(1,0)=-1 301()=0 302(0,0,7)=1 304(0,0)=6 307(1,3)=0 307(2,7)=1 312'300L+100W' 313()=1 315(0,0)=60 308(2,0)=13 308(2,1)=1");
     }
 
     public static void main(String[] args) {

@@ -246,6 +246,10 @@ public final class WaySentencesTest {
         Script.then(only(12, 1, 2), "2(1,0,2)=1 5(0,1,2,0,999)=2 2(1,0,1)=1 5(0,1,2,0,999)=-1");
         Script.then(only(24, 13, 1), "2(1,0,2)=1 5(0,2,1,0,999)=2 2(1,0,1)=1 5(0,2,1,0,999)=-1");
         Script.then(only(0, 13, 2), "2(1,0,4)=1 5(0,0,2,0,999)=2 17()=1 2(1,0,3)=1 17()=0 5(0,0,2,0,999)=-1");
+        // by odd ones, too: 0, then 1; 1, then 15; 3, then 13
+        Script.then(only(0, 1, 15), "2(2,0,1)=1 5(0,0,3,1,9999)=2 2(2,0,0)=1 5(0,0,3,1,9999)=-1 17()=0");
+        Script.then(only(12, 26, 16), "2(2,0,2)=1 5(0,1,4,1,9999)=2 17()=1 2(2,0,1)=1 17()=0 5(0,1,4,1,9999)=-1");
+        Script.then(only(0, 25, 2), "2(2,0,6)=1 5(0,0,2,0,9999)=2 2(2,0,5)=1 5(0,0,2,0,9999)=-1");
         Script.then(only(1, 12, 13), "2(1,0,0)=1 5(0,1,1,0,999)=1 5(1,0,1,1,999)=1 6(1,2)=4");
     }
 
@@ -310,6 +314,30 @@ public final class WaySentencesTest {
         Script.then(three(7), "5(0,0,2,0,99)=2 0(2,0,0,5)=1 2(1,4,0)=1 17()=0 2(1,5,0)=1 17()=1");
         // a way with a turn at a cell that becomes bridged
         Script.then(only(0, 13, 2), "5(0,0,2,0,999)=2 17()=1 1(1,1)=1 12(1,1,3,0)=1 17()=0");
+    }
+
+    /** Five ways from (0, 2) to (2, 2), all found, by (1, 2), (1, 0), (1, 1), (1, 3) and last (1, 4), each by its own cell. */
+    private static RoadHouse fiveWays() {
+        RoadHouse x = Script.then(only(24, 26, 1, 13, 25, 37, 49), "2(2,0,8)=1 5(0,2,2,2,99999)=2 6(1,1)=2 4*10(0,1)=2 10(0,1)=-1 6(1,1)=4 4(0,1,1)=1");
+        // the last one costs 110 and 110 times the weight; the others so much that they do not count
+        return Script.then(x, "0(1,4,5,0)=1 3(0,1,4,5)=1 0(1,0,999,0)=1 0(1,1,999,0)=1 0(1,2,999,0)=1 0(1,3,999,0)=1 11(0,0,0)=0 11(0,1,0)=988 11(0,1,1)=11");
+    }
+
+    @Says("11: Weights of an aim (0 or above, others being what they are) for which no way found costs less than the one at hand, by costs as they are now")
+    static void spanOfFive() {
+        // 220, 330, 280 without the aim: up to 1, 2, 17 / 11
+        Script.then(fiveWays(), "0(1,2,33,0)=1 11(0,1,0)=2 11(0,1,1)=1 0(1,0,10,0)=1 11(0,1,0)=1 11(0,1,1)=1 0(1,1,20,0)=1 11(0,1,0)=1 11(0,1,1)=1 11(0,0,0)=0 0(1,1,10,0)=1 11(0,1,0)=3 11(0,1,1)=11 4(0,7,3)=1 11(0,1,0)=3 11(0,1,1)=11");
+        // 330, 220, 280 times the weight: from 1 / 2, 1, 11 / 17 on
+        Script.then(fiveWays(), "0(1,2,0,0)=1 3(0,1,2,33)=1 11(0,0,0)=1 11(0,0,1)=2 0(1,0,0,0)=1 3(0,1,0,10)=1 11(0,0,0)=1 11(0,0,1)=1 0(1,1,0,0)=1 3(0,1,1,20)=1 11(0,0,0)=1 11(0,0,1)=1 0(1,3,5,0)=1 3(0,1,3,9)=1 11(0,0,0)=5 11(0,0,1)=2");
+        // another aim that has a weight counts in what the ways cost
+        Script.then(fiveWays(), "0(1,2,33,0)=1 11(0,1,0)=2 3(1,1,2,4)=1 4(1,11,4)=1 11(0,1,0)=3 11(0,1,1)=1 11(1,0,0)=0 11(1,1,1)=0 11(2,0,1)=1 11(2,1,0)=1 11(2,1,1)=0");
+    }
+
+    @Says("11: If there are none such: - 1 / 1.")
+    static void spanOfOneWeight() {
+        // 140; 140 times the weight; and at hand 70 and 70 times it: by the weight 1 alone it costs no more than both
+        RoadHouse x = Script.then(only(12, 1, 13, 25, 14), "0(1,1,14,0)=1 3(0,1,0,10)=1 0(1,2,5,0)=1 3(0,1,2,5)=1 4(0,1,1)=1 5(0,1,2,1,9999)=2 6(1,1)=1 10(0,1)=2 6(1,1)=0 10(0,1)=2 6(1,1)=2");
+        Script.then(x, "11(0,0,0)=1 11(0,0,1)=1 11(0,1,0)=1 11(0,1,1)=1 0(1,2,4,0)=1 11(0,0,0)=4 11(0,0,1)=5 11(0,1,0)=6 11(0,1,1)=5 0(1,2,6,0)=1 11(0,0,0)=-1 11(0,0,1)=1 11(0,1,0)=-1 11(0,1,1)=1");
     }
 
     public static void main(String[] args) {
