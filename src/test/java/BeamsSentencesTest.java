@@ -61,6 +61,11 @@ public final class BeamsSentencesTest {
         reads("S1x12S", 1);
         reads("S12x1S", 1);
         reads("S9x10S", 1);
+        reads("S9x9S", 1);
+        reads("F9x9hS9x9hS9x9F", 3);
+        Script.on("200'S9x9hT9x9.' 201()=2 214(4)=18 214(2)=1 204(0,1,1)=1 203(1,1,1)=1 200'S9x12S12x9S' 201()=2 214(4)=21 214(3)=3");
+        // a half of nine at each end: nine by four, and nine cubed by 48 times nine
+        Script.on("200'S9x9S' 201()=1 207(0,0,2)=0 207(2,0,2)=1 208(0,0,2,0)=9 208(0,0,2,1)=4 208(1,0,2,0)=27 208(1,0,2,1)=16");
         reads("S13x1S", -2);
         reads("S1x13S", -4);
         reads("S99x1S", -2);
@@ -91,11 +96,14 @@ public final class BeamsSentencesTest {
     @Says({"203: throws ArrayIndexOutOfBoundsException", "203: A node is held (or not) in height (axis 0), in turning (1): whether it was so before.", "203: False also: another axis."})
     static void support() {
         Script.on("203(-1,0,0)!index 203(2,0,0)!index 203(2,5,0)!index 203(MIN,0,1)!index 203(0,2,0)=0 203(0,-1,0)=0 203(0,0,1)=1 203(0,1,0)=1 203(0,1,0)=0 203(1,0,7)=0 203(1,0,-1)=1 214(3)=2 203(1,0,0)=1 203(1,0,0)=0 214(3)=1 203(0,2,0)=0 203(0,0,1)=1");
+        Script.on("203(0,2,1)=0 203(1,0,0)=0 214(3)=1 212(0,9)=1 203(0,1,0)=1 213(0,1,1,0)=-1 203(0,1,1)=0 213(0,1,1,0)=9");
+        Script.on("200'F1x1F1x1S' 201()=2 203(0,2,0)=0 203(0,-1,0)=0 203(1,-1,0)=0 203(1,0,1)=1 203(0,1,1)=1 203(1,2,0)=0 203(2,0,1)=1");
     }
 
     @Says({"204: throws ArrayIndexOutOfBoundsException", "204: whether it had one.", "204: False also: another end."})
     static void hinge() {
         Script.on("204(-1,0,0)!index 204(1,0,0)!index 204(1,5,0)!index 204(0,2,1)=0 204(0,-1,1)=0 214(2)=0 204(0,0,1)=0 204(0,0,3)=1 214(2)=1 204(0,1,0)=0 204(0,1,-5)=0 214(2)=2 204(0,0,0)=1 204(0,0,0)=0 214(2)=1");
+        Script.on("200'F1x1F1x1h.' 201()=2 204(0,2,1)=0 204(1,-1,1)=0 204(1,0,0)=0 204(0,1,0)=0 204(1,1,1)=1 204(0,3,0)=0 204(1,1,1)=1 204(1,0,1)=0 204(0,1,0)=0 214(2)=2");
     }
 
     @Says({"205: 0: the row is not loose; else how many nodes are loose.", "206: The k-th loose node of the row as it is now.", "206: BAD: none such.", "nodes are loose that can move or turn then (for turning: of ends without a hinge)"})
@@ -176,6 +184,70 @@ public final class BeamsSentencesTest {
         Script.on("200'S2x1F2x1S' 201()=2 " + rows + "208(2,0,2,-1)=-1 208(3,0,2,-1)=0 208(1,0,2,-1)=0 208(3,1,2,-1)=-1 208(2,1,2,-1)=0");
         // at free ends there is nothing; at a hinge there is no moment
         Script.on("200'.2x1F2x1.' 201()=2 207(1,0,0)=0 207(0,0,0)=1 207(1,1,4)=2 207(0,1,4)=3 208(0,0,2,-1)=0 208(1,0,2,-1)=0 208(2,1,2,-1)=0 208(3,1,2,-1)=0 208(0,1,4,-1)=0 200'F2x1h.2x1F' 201()=2 " + rows + "208(2,0,2,-1)=0 208(3,1,2,-1)=0 208(3,0,4,-1)=0 208(2,0,4,-1)=0");
+    }
+
+    private static Frac told(RoadHouse x, int row, int member, int place) {
+        long sign = x.act(208, row, member, place, -1, 0);
+        return Frac.of(sign * x.act(208, row, member, place, 0, 0), x.act(208, row, member, place, 1, 0));
+    }
+
+    /** The area above 0 (or below it) under straight lines between the values of a row, by the lengths of its beams. */
+    private static Frac areaOf(RoadHouse x, int row, int sign, int... lengths) {
+        Frac sum = Frac.ZERO;
+        for (int b = 0; b < lengths.length; b++) {
+            for (int p = 0; p < 4; p++) {
+                Frac one = told(x, row, b, p).times(sign);
+                Frac other = told(x, row, b, p + 1).times(sign);
+                Frac step = Frac.of(lengths[b], 8);
+                if (one.sign() >= 0 && other.sign() >= 0) {
+                    sum = sum.plus(one.plus(other).times(step));
+                } else if (one.sign() > 0 || other.sign() > 0) {
+                    Frac more = one.sign() > 0 ? one : other;
+                    Frac less = one.sign() > 0 ? other : one;
+                    sum = sum.plus(more.times(more).by(more.minus(less)).times(step));
+                }
+            }
+        }
+        return sum;
+    }
+
+    @Says("209: The area between 0 and the straight lines that join the values of a row at all places in order")
+    static void areas() {
+        String[] texts = {"S4x1S8x3S", "F3x2S5x1h.7x12F", "S2x1hS9x5F4x7S", "S12x1.5x12T", ".1x1S11x2S3x5.", "Fh6x1S6x1hF"};
+        int[][] lengths = {{4, 8}, {3, 5, 7}, {2, 9, 4}, {12, 5}, {1, 11, 3}, {6, 6}};
+        for (int t = 0; t < texts.length; t++) {
+            RoadHouse x = Script.on("200'" + texts[t] + "' 201()=" + lengths[t].length + " 205()=0 207(0,0,3)=0 207(0,1,0)=1 207(1,0,1)=2 207(1,1,2)=3 207(2,1,3)=4 207(2,0,1)=5 207(1,1,4)=6");
+            for (int row = 0; row < 7; row++) {
+                for (int sign = -1; sign <= 1; sign += 2) {
+                    Frac due = areaOf(x, row, sign, lengths[t]);
+                    String what = texts[t] + " row " + row + " sign " + sign;
+                    Script.due(what + " sign", x.act(209, row, sign, -1, 0, 0), due.sign());
+                    Script.due(what + " upper", x.act(209, row, sign, 0, 0, 0), due.up.longValueExact());
+                    Script.due(what + " lower", x.act(209, row, sign, 1, 0, 0), due.low.longValueExact());
+                }
+            }
+        }
+    }
+
+    @Says("A node may be held in HEIGHT, and in TURNING; an end of a beam may have a HINGE.")
+    static void hinges() {
+        // clamped at one end, at the other one held in height alone: 81, 40 and 11 of 128 there, 15 / 32, 3 / 4 and 21 / 32 at the clamp
+        String left = "207(3,0,0)=0 207(0,0,4)=1 208(0,0,1,0)=81 208(0,0,1,1)=128 208(0,0,2,0)=5 208(0,0,2,1)=16 208(0,0,3,0)=11 208(0,0,3,1)=128 208(1,0,1,-1)=-1 208(1,0,1,0)=15 208(1,0,1,1)=32 208(1,0,2,0)=3 208(1,0,2,1)=4 208(1,0,3,0)=21 208(1,0,3,1)=32";
+        String right = "207(3,1,0)=0 207(0,0,0)=1 208(0,0,3,0)=81 208(0,0,3,1)=128 208(0,0,2,0)=5 208(0,0,2,1)=16 208(0,0,1,0)=11 208(0,0,1,1)=128 208(1,0,3,-1)=-1 208(1,0,3,0)=15 208(1,0,3,1)=32 208(1,0,2,0)=3 208(1,0,2,1)=4 208(1,0,1,0)=21 208(1,0,1,1)=32";
+        for (String text : new String[] {"S4x1F", "Sh4x1F", "Fh4x1F"}) {
+            Script.on("200'" + text + "' 201()=1 " + left);
+        }
+        for (String text : new String[] {"F4x1S", "F4x1hS", "F4x1hF"}) {
+            Script.on("200'" + text + "' 201()=1 " + right);
+        }
+        // with hinges at both ends, or held in height alone: three, two and one of four
+        for (String text : new String[] {"S4x1S", "Fh4x1hF", "Sh4x1hF", "Fh4x1S"}) {
+            Script.on("200'" + text + "' 201()=1 207(3,0,0)=0 208(0,0,1,0)=3 208(0,0,1,1)=4 208(0,0,2,0)=1 208(0,0,2,1)=2 208(0,0,3,0)=1 208(0,0,3,1)=4 208(0,0,0,0)=1 208(0,0,4,0)=0");
+        }
+        // the second beam likewise: a clamp between keeps the first one out of it
+        Script.on("200'S1x1F4x1hS' 201()=2 207(3,2,0)=0 208(0,1,3,0)=81 208(0,1,3,1)=128 208(0,1,2,0)=5 208(0,0,3,-1)=0");
+        Script.on("200'F4x1Fh4x1F' 201()=2 207(1,1,0)=0 208(0,1,1,0)=81 208(0,1,1,1)=128 208(0,1,3,0)=11 208(0,0,3,-1)=0");
+        Script.on("200'F4x1Fh4x1hF' 201()=2 207(1,1,0)=0 208(0,1,1,0)=3 208(0,1,1,1)=4 208(0,1,3,0)=1 207(0,0,0)=1 208(1,0,1,-1)=-1 208(1,0,1,0)=9 208(1,0,1,1)=16");
     }
 
     public static void main(String[] args) {

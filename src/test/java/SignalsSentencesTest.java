@@ -22,6 +22,10 @@ public final class SignalsSentencesTest {
     static void begin() {
         RoadHouse x = Script.then(plan(2, "A1-3;B1-3"), "507(1,5)=1 509()=0 512(400)=1 504'A1-' 500(-1)!size 500(MIN)!size 500(0)!argument 500(7)!argument 500(MAX)!argument 510(0)=1 506()=1 507(1,5)=0 517()=1 504'9' 505()=1 506()=2");
         Script.then(x, "501(0,1,4)=1 502(0,15)=1 503(0,1)=1 504'B' 500(2)=0 506()=0 505()=-1 510(0)=-1 513()=0 517()=0 504'A1-1;B1-1' 505()=2 507(0,5)=1 5*509()=0 510(4)=0");
+        // no clash, no seconds between, no times are left
+        Script.then(plan(2, "AB1-1"), "501(0,1,4)=1 502(0,9)=1 503(0,1)=1 500(2)=0 504'AB1-1' 505()=1 5*509()=0");
+        Script.then(plan(2, "A1-1;B1-1"), "501(0,1,4)=1 500(2)=0 501(1,0,2)=1 504'A1-1;B1-1' 505()=2 509()=0 510(2)=1 509()=0 510(4)=2");
+        Script.then(plan(2, "A5-9;B1-1"), "503(0,1)=1 500(2)=0 501(0,1,0)=1 504'A5-9;B1-1' 505()=2 507(1,1)=1 5*509()=0 510(2)=1");
         Script.on("500(6)=0 502(5,1)=1 500(1)=0 502(1,1)!index");
         // nothing is told any more, and nothing was done
         Script.then(plan(1, "A1-1"), "507(0,1)=1 500(1)=0 507(0,1)=1 504'A1-1' 505()=1 507(0,1)=1 2*509()=0 500(1)=0 504'A1-1' 505()=1 510(0)=0");
@@ -59,6 +63,10 @@ public final class SignalsSentencesTest {
         Script.on("500(2)=0 503(-1,1)!index 503(2,1)!index 503(2,99)!index 503(0,0)=0 503(0,32)=0 503(0,-1)=0 503(1,31)=1 503(0,1)=1");
         // shown for longer than it may, while one that clashes waits
         Script.then(plan(2, "A5-31;B1-1"), "501(0,1,0)=1 503(0,2)=1 507(1,1)=1 2*509()=0 509()=4 503(0,32)=0 503(0,3)=1 507(1,1)=1 3*509()=0 509()=4 503(0,5)=1 507(1,1)=1 5*509()=0 510(2)=1");
+        // so for a group with another letter, and told the other way round
+        Script.then(plan(3, "C5-31;B1-1"), "501(1,2,0)=1 503(2,2)=1 507(1,1)=1 2*509()=0 509()=4");
+        Script.then(plan(3, "C5-31;B1-1"), "501(2,1,0)=1 503(2,2)=1 507(1,1)=1 2*509()=0 509()=4");
+        Script.then(plan(2, "A5-31;B1-1"), "501(1,0,0)=1 503(0,2)=1 507(1,1)=1 2*509()=0 509()=4");
         Script.then(plan(2, "A5-31;B1-1"), "501(0,1,0)=1 503(0,2)=1 507(1,4)=1 3*509()=0 509()=4 503(0,2)=1 4*509()=0");
         Script.then(plan(2, "A5-31;B1-1"), "503(0,2)=1 507(1,1)=1 5*509()=0");
     }
@@ -155,6 +163,9 @@ public final class SignalsSentencesTest {
         Script.on("510(0)=-1 510(8)=-1 510(9)=-1");
         RoadHouse x = Script.then(plan(2, "A2-3;B1-1"), "510(-1)=-1 510(11)=-1 510(MAX)=-1 510(0)=0 510(1)=0 510(2)=0 510(3)=0 510(4)=0 510(5)=0 510(6)=0 510(7)=1 510(8)=-1 510(9)=0 510(10)=15");
         Script.then(x, "501(0,1,2)=1 3*509()=0 510(0)=3 510(1)=0 510(2)=0 510(3)=3 510(4)=2 510(7)=0 510(9)=0 510(10)=15 509()=0 510(2)=0 510(3)=3 510(4)=1 510(7)=0 510(9)=1 509()=0 510(2)=1 510(3)=0 510(4)=0 510(7)=2 510(9)=2 510(10)=0 509()=0 510(2)=0 510(7)=1 510(9)=0 510(10)=0");
+        Script.then(plan(2, "B1-1"), "510(9)=15 510(10)=0 510(7)=2");
+        // behind a round that clears for 15 seconds the machine is as at first
+        Script.then(plan(2, "A1-1;B1-1"), "501(1,0,15)=1 512(400)=1 17*509()=0 510(8)=0 510(0)=17");
         Script.then(plan(1, "A1-1"), "512(32)=1 510(8)=0 5*509()=0 510(8)=5 512(3)=2 510(8)=-1 512(0)=-1 510(8)=-1");
     }
 
@@ -179,6 +190,10 @@ public final class SignalsSentencesTest {
         Script.then(plan(2, "A2-5;B1-1"), "507(1,1)=1 509()=0 510(2)=0 509()=0 510(2)=1");
         Script.then(plan(2, "A2-5;B1-1"), "507(0,1)=1 4*509()=0 510(2)=0 509()=0 510(2)=1");
         Script.then(plan(3, "A2-5;B1-1;C4-9"), "507(2,2)=1 509()=0 510(2)=0 509()=0 510(2)=2 510(6)=0 507(1,5)=1 507(0,4)=1 3*509()=0 510(6)=3 510(2)=2 509()=0 510(2)=0 510(6)=2 2*509()=0 510(2)=1 509()=0 510(2)=2");
+        // round and round: from the second phase on, not to the third, but to the first
+        Script.then(plan(3, "A1-1;B3-9;C1-1"), "509()=0 510(2)=1 507(0,2)=1 3*509()=0 510(2)=0");
+        // of two plans the other one's first phase comes, whatever phase would be the next
+        Script.then(plan(1, "A1-9;A5-5"), "504'A4-5;A1-1' 505()=2 508(1,1)=1 509()=0 510(1)=1 510(2)=0");
         Script.then(plan(1, "A3-9"), "504'A1-5;A1-1' 505()=2 508(1,1)=1 2*509()=0 510(1)=0 509()=0 510(1)=1 510(2)=0 510(3)=0 4*509()=0 510(2)=0 509()=0 510(2)=1");
     }
 
@@ -205,6 +220,8 @@ public final class SignalsSentencesTest {
         Script.then(plan(2, "AB1-1"), "509()=0 501(0,1,0)=1 509()=1 509()=1");
         // A ended a second ago, B begins: two are asked for, then one
         Script.then(plan(3, "A1-1;C1-1;B1-1"), "501(0,1,2)=1 509()=0 509()=2 501(0,1,1)=1 2*509()=0");
+        // B ended, A begins
+        Script.then(plan(3, "B1-1;C1-1;A1-1"), "501(1,0,2)=1 509()=0 509()=2 501(1,0,1)=1 2*509()=0");
         // first 2, then 3: C ended too early, too
         Script.then(plan(3, "A1-1;C1-1;B1-1"), "501(0,1,2)=1 502(2,2)=1 509()=0 509()=2 501(0,1,1)=1 509()=0 509()=3");
         // first 3, then 4: B ended too early, and A, shown for too long, clashes with one that waits
@@ -258,6 +275,29 @@ public final class SignalsSentencesTest {
     static void shown() {
         Script.on("511(0)=-1");
         Script.then(plan(2, "A1-1;B1-1"), "511(-1)=-1 511(2)=-1 511(0)=1 511(1)=0 501(0,1,1)=1 509()=0 511(0)=0 511(1)=0 509()=0 511(0)=0 511(1)=1");
+    }
+
+    @Says({"STATES are all that machines can be: equal ones are one.", "512: at most so many (1 .. 400)"})
+    static void states() {
+        // five phases of one group, each for a second: 31 seconds until its age stays, then five more
+        Script.then(plan(1, "A1-1;A1-1;A1-1;A1-1;A1-1"), "512(35)=2 513()=35 517()=0 512(36)=1 513()=36 515(0)=0 517()=1");
+        // three plans of two phases: 1, 3, 5 states behind 0, 1, 2 seconds, then 6 for each age
+        Script.then(plan(1, "A1-1;A1-1"), "504'A1-1;A1-1' 505()=2 504'A1-1;A1-1' 505()=2 512(183)=1 513()=183 512(182)=2");
+        // two sides; on each one 2 while it is shown, 2 behind the end, then 14 times 4, by who waits
+        Script.then(plan(2, "A1-1;B1-1"), "501(0,1,15)=1 501(1,0,15)=1 512(120)=1 513()=120 512(119)=2 512(400)=1 515(0)=30 515(1)=30 517()=1");
+        // by the second plan B is never shown
+        Script.then(plan(2, "A1-1;B1-1"), "512(400)=1 515(1)=0 504'A1-1;A1-1' 505()=2 513()=0 515(1)=-2 512(400)=1 515(0)=0 515(1)=-1 516(0)=1 517()=0");
+    }
+
+    @Says("514: (from the first state on, by those through which it was found): of second k, from 0 on: 0 its event, 1 the plan behind it, 2 the phase, 3 groups that are shown as bits, 4 clearing left, 5 groups that wait, 6 its fault.")
+    static void longRows() {
+        // the second plan is wanted, and shows what must not be, in its second phase
+        RoadHouse x = Script.then(plan(2, "A1-9"), "504'B2-2;AB1-1' 505()=2 501(0,1,0)=1 512(400)=0 514(0,0)=4 514(0,1)=1 514(0,2)=0 514(0,3)=2 514(0,5)=0 514(0,6)=0");
+        Script.then(x, "514(1,0)=0 514(1,1)=1 514(1,2)=0 514(1,3)=2 514(1,6)=0 514(2,0)=0 514(2,1)=1 514(2,2)=1 514(2,3)=3 514(2,6)=1 514(3,0)=-1");
+        // F calls in the second second, when A is shown for too long
+        Script.then(plan(6, "A5-31"), "501(0,5,0)=1 503(0,1)=1 512(400)=0 513()=12 514(0,0)=0 514(0,6)=0 514(1,0)=6 514(1,5)=32 514(1,3)=1 514(1,6)=4 514(2,0)=-1");
+        // while it clears, F waits: the fault comes when A begins too soon behind C
+        Script.then(plan(3, "C1-1;B1-1;A1-1"), "501(2,1,9)=1 501(2,0,15)=1 512(400)=0 514(0,4)=9 514(8,4)=1 514(9,4)=0 514(9,2)=1 514(10,6)=2 514(10,2)=2 514(11,0)=-1 514(5,3)=0 514(5,6)=0");
     }
 
     public static void main(String[] args) {
