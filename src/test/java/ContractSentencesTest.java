@@ -62,6 +62,7 @@ public final class ContractSentencesTest {
         reads("x=a;y b", -6);
         reads("x=a;y==b", -7);
         reads("x=a;y=b;z;", -10);
+        Script.on("700'x=7;' 701()=-5 700'x=a' 701()=1 703(1,5,3,2)=0 704(0,0,0)=1 705(0,0,0)=5");
         Script.on("700'x=a+1;' 701()=-7 700'x=a*2+1*b;y' 701()=-12 700'x=a' 701()=1 703(1,5,3,2)=0 704(0,0,0)=1 705(0,0,0)=5");
     }
 
@@ -182,6 +183,10 @@ public final class ContractSentencesTest {
         measures("a/b", -7, 2, 0, -3);
         measures("a/b", 7, -2, 0, -3);
         measures("k*9999", 0, 0, 0, 9999);
+        measures("0", 7, 7, 7, 0);
+        measures("a+0*b-0", 5, 3, 1, 5);
+        measures("0-a", 5, 3, 1, -5);
+        measures("a*1-b", 5, 3, 1, 2);
         measures("a~5", 2, 0, 0, 0);
         measures("a~5", 3, 0, 0, 5);
         measures("a~5", -2, 0, 0, 0);
