@@ -254,6 +254,8 @@ public final class SignalsSentencesTest {
         Script.then(plan(2, "A1-1;B1-1"), "512(400)=1 515(0)=0 515(1)=0 517()=1 516(0)=-1");
         Script.then(plan(2, "A2-2;B1-1"), "512(400)=1 515(0)=0 515(1)=1 517()=1");
         Script.then(plan(2, "A4-4;B1-1"), "512(400)=1 515(0)=0 515(1)=3 517()=1 502(0,5)=1 512(400)=0 515(1)=-2 517()=0");
+        // as long as one plan is wanted behind the other one, each begins with A: B waits without end; by one of them alone it does not
+        Script.then(plan(2, "A4-4;B1-1"), "504'A4-4;B1-1' 505()=2 512(400)=1 515(0)=0 515(1)=-1 516(0)=1 517()=0");
         Script.then(plan(3, "B1-1"), "512(400)=1 516(0)=0 516(1)=2 516(2)=-1 515(1)=0 517()=0");
     }
 
