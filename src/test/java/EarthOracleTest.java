@@ -148,24 +148,25 @@ public final class EarthOracleTest {
         clashed = false;
     }
 
-    void build(Check c, RoadHouse x, String name, Random r) {
-        for (int k = 1 + r.nextInt(3); k > 0; k--) {
-            int[] v = {1 + r.nextInt(3), r.nextInt(2), r.nextInt(3), r.nextInt(30)};
+    /** Within a few metres, and with more cuts, many plans are as dear as each other. */
+    void build(Check c, RoadHouse x, String name, Random r, int metres) {
+        for (int k = 1 + r.nextInt(metres < 5 ? 4 : 3); k > 0; k--) {
+            int[] v = {1 + r.nextInt(3), r.nextInt(2), r.nextInt(metres < 5 ? 2 : 3), r.nextInt(metres)};
             due(c, name, x, cuts.size(), 100, v[0], v[1], v[2], v[3]);
             cuts.add(v);
         }
         for (int k = r.nextInt(2); k > 0; k--) {
-            int[] v = {r.nextInt(30), r.nextInt(6)};
+            int[] v = {r.nextInt(metres), r.nextInt(metres < 5 ? 3 : 6)};
             due(c, name, x, pits.size(), 106, v[0], v[1]);
             pits.add(v);
         }
         for (int k = 1 + r.nextInt(3); k > 0; k--) {
-            int[] v = {1 + r.nextInt(3), r.nextInt(4), r.nextInt(30)};
+            int[] v = {1 + r.nextInt(3), r.nextInt(4), r.nextInt(metres)};
             due(c, name, x, fills.size(), 101, v[0], v[1], v[2]);
             fills.add(v);
         }
         for (int k = r.nextInt(3); k > 0; k--) {
-            int[] v = {r.nextInt(30), r.nextInt(30), r.nextInt(5)};
+            int[] v = {r.nextInt(metres), r.nextInt(metres), r.nextInt(5)};
             due(c, name, x, ways.size(), 104, v[0], v[1], v[2]);
             ways.add(v);
         }
@@ -315,7 +316,7 @@ public final class EarthOracleTest {
 
     public static void main(String[] args) {
         Check c = new Check("EarthOracleTest");
-        int runs = args.length > 0 ? Integer.parseInt(args[0]) : 150;
+        int runs = args.length > 0 ? Integer.parseInt(args[0]) : 800;
         int planned = 0;
         int clashes = 0;
         for (int run = 0; run < runs; run++) {
@@ -324,7 +325,7 @@ public final class EarthOracleTest {
             Arrays.fill(o.most, -1);
             RoadHouse x = new RoadHouse();
             String name = "run " + run;
-            o.build(c, x, name, r);
+            o.build(c, x, name, r, run % 3 == 0 ? 30 : run % 3 == 1 ? 4 : 2);
             for (int round = 0; round < 4; round++) {
                 int steps = o.sources() * o.fills.size();
                 c.dueThrow(x, IllegalStateException.class, 108, steps - 1);
