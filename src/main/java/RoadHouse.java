@@ -1000,7 +1000,6 @@ public final class RoadHouse {
         private int open;
         private Way grid;
         private int start;
-        private int end;
         private int kinds;
 
         void shareNone() {
@@ -1030,7 +1029,6 @@ public final class RoadHouse {
         int closeLabels(Way way, int from, int to, int nodes, int mostShared) {
             grid = way;
             start = from;
-            end = to;
             kinds = mostShared + 1;
             int labels = Way.CELLS * PER_CELL * kinds;
             makeRoom(labels);
