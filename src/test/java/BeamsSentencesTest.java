@@ -106,7 +106,7 @@ public final class BeamsSentencesTest {
         Script.on("200'F1x1F1x1h.' 201()=2 204(0,2,1)=0 204(1,-1,1)=0 204(1,0,0)=0 204(0,1,0)=0 204(1,1,1)=1 204(0,3,0)=0 204(1,1,1)=1 204(1,0,1)=0 204(0,1,0)=0 214(2)=2");
     }
 
-    @Says({"205: 0: the row is not loose; else how many nodes are loose.", "206: The k-th loose node of the row as it is now.", "206: BAD: none such.", "nodes are loose that can move or turn then (for turning: of ends without a hinge)"})
+    @Says({"205: 0: the row is not loose; else how many nodes are loose.", "nodes are loose that can move or turn then (for turning: of ends without a hinge)"})
     static void loose() {
         Script.on("206(0)=-1 200'.1x1.' 201()=1 205()=2 206(0)=0 206(1)=1 206(2)=-1 206(-1)=-1 206(MIN)=-1 200'S1x1S' 201()=1 205()=0 206(0)=-1 200'S1x1.' 201()=1 205()=2 200'T1x1T' 201()=1 205()=2 200'T1x1S' 201()=1 205()=0");
         Script.on("200'Sh4x1hS' 201()=1 205()=0 200'F4x1h.1x1.' 201()=2 205()=2 206(0)=1 206(1)=2 206(2)=-1 200'Fh4x1h.h4x1hF' 201()=2 205()=1 206(0)=1 206(1)=-1 200'F4x1h.h4x1F' 201()=2 205()=0 200'Fh4x1h.h4x1F' 201()=2 205()=0");
@@ -248,6 +248,12 @@ public final class BeamsSentencesTest {
         Script.on("200'S1x1F4x1hS' 201()=2 207(3,2,0)=0 208(0,1,3,0)=81 208(0,1,3,1)=128 208(0,1,2,0)=5 208(0,0,3,-1)=0");
         Script.on("200'F4x1Fh4x1F' 201()=2 207(1,1,0)=0 208(0,1,1,0)=81 208(0,1,1,1)=128 208(0,1,3,0)=11 208(0,0,3,-1)=0");
         Script.on("200'F4x1Fh4x1hF' 201()=2 207(1,1,0)=0 208(0,1,1,0)=3 208(0,1,1,1)=4 208(0,1,3,0)=1 207(0,0,0)=1 208(1,0,1,-1)=-1 208(1,0,1,0)=9 208(1,0,1,1)=16");
+    }
+
+    @Says({"206: The k-th loose node of the row as it is now.", "206: BAD: none such."})
+    static void looseNodes() {
+        Script.on("206(0)=-1 206(-1)=-1 203(0,1,0)=1 206(0)=0 206(1)=1 206(2)=-1 206(-1)=-1 206(MAX)=-1 206(MIN)=-1 203(1,1,1)=0 206(0)=-1 203(1,1,0)=1 203(1,0,1)=0 206(0)=-1");
+        Script.on("200'F2x1F2x1S2x1h.' 201()=3 206(0)=-1 204(2,0,1)=0 206(0)=3 206(1)=-1 203(3,0,1)=0 206(0)=-1 203(2,0,0)=1 206(0)=-1 204(1,0,1)=0 206(0)=2 206(1)=-1 203(3,0,0)=1 206(0)=2 206(1)=3 206(2)=-1");
     }
 
     public static void main(String[] args) {

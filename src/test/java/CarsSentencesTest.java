@@ -63,9 +63,24 @@ public final class CarsSentencesTest {
         Script.on("607(-1)=-1 607(201)=-1 607(0)=0 607(150)=150 607(0)=150 607(-1)=-1 607(100)=200 607(1)=200 607(200)=200 607(201)=-1");
     }
 
-    @Says({"608: BAD: none such.", "611: BAD: none such.", "612: BAD: none such.", "613: BAD: none such."})
-    static void noCells() {
-        Script.then(cells(2, "601(0,1)=1 604(0,150)=1 604(1,1000)=1"), "608(-1)=-1 608(24)=-1 608(23)=0 611(-1)=-1 611(24)=-1 611(23)=0 612(1,0)=-1 612(0,2)=-1 612(-1,1)=-1 612(0,24)=-1 612(0,1)=0 613(1,0,0)=-1 613(0,1,-1)=-1 613(0,1,2)=-1 613(0,1,0)=0 607(1)=1 611(0)=100 611(1)=0 609()=100 608(1)=900 607(1)=2 612(0,1)=100 611(0)=100");
+    @Says("608: BAD: none such.")
+    static void inside() {
+        Script.then(cells(2, "604(1,1000)=1 608(-1)=-1 608(24)=-1 608(MAX)=-1 608(MIN)=-1 608(23)=0 608(0)=0 608(1)=1000"), "607(1)=1 608(1)=900 608(24)=-1");
+    }
+
+    @Says("611: BAD: none such.")
+    static void delay() {
+        Script.then(cells(2, "601(0,1)=1 604(0,150)=1 604(1,1000)=1 611(-1)=-1 611(24)=-1 611(MIN)=-1 611(23)=0"), "607(1)=1 611(0)=100 611(1)=0 609()=100 607(1)=2 611(0)=100 611(24)=-1");
+    }
+
+    @Says("612: BAD: none such.")
+    static void moved() {
+        Script.then(cells(2, "612(0,1)=-1 601(0,1)=1 604(0,150)=1 612(1,0)=-1 612(0,2)=-1 612(0,0)=-1 612(-1,1)=-1 612(0,24)=-1 612(24,1)=-1 612(0,1)=0"), "607(1)=1 612(0,1)=100 607(1)=2 612(0,1)=150 612(1,0)=-1");
+    }
+
+    @Says("613: BAD: none such.")
+    static void rest() {
+        Script.then(cells(3, "613(0,1,0)=-1 601(0,1)=1 601(0,2)=1 602(0,1,2,7)=1 604(0,90)=1 613(1,0,0)=-1 613(0,3,0)=-1 613(0,1,-1)=-1 613(0,1,2)=-1 613(-1,1,0)=-1 613(0,24,1)=-1 613(0,1,0)=0 613(0,1,1)=7"), "607(1)=1 613(0,1,0)=5 613(0,1,1)=7 613(0,1,2)=-1");
     }
 
     @Says({"614: A closing from a step to come on (a fraction as of share()).", "614: False: none such; 200 settings were told.", "CLOSINGS: a fraction of MOST that is left (1 / 1 at first).", "The CAP of a cell is its MOST times the fraction of its closing, cut off."})
@@ -119,12 +134,12 @@ public final class CarsSentencesTest {
         Script.then(cells(1, "604(0,5)=1 600(0,5,0,0)=1 619(0,4,7)=1 619(0,5,8)=1 619(0,3,7)=1 619(0,0,0)=1 620(0)=-1"), "607(1)=1 620(0)=107 620(1)=107 620(2)=100 620(3)=-1 620(-1)=-1 607(1)=2 620(3)=207 620(5)=200 620(6)=-1 607(98)=100 620(299)=10000 620(300)=-1 607(1)=101 620(299)=10000 620(300)=-1 620(MAX)=-1");
     }
 
-    @Says({"621: its number, 0 .. 3.", "621: BAD: 4 were kept.", "622: False: none such."})
+    @Says({"621: its number, 0 .. 3.", "621: BAD: 4 were kept."})
     static void save() {
         Script.then(cells(1, "622(0)=0 621()=0 604(0,5)=1 3*621()=#+1 621()=-1 622(-1)=0 622(4)=0 622(0)=1 608(0)=0 622(3)=1 608(0)=5 621()=-1"), "610()=1");
     }
 
-    @Says({"621: All that steps and put() change, and what rules held, is kept (but not settings, lines' comings, joins, shares, rules themselves, measures)", "622: What was kept is so again; steps behind it are undone (what was told for them holds when they are done again)."})
+    @Says({"622: What was kept is so again; steps behind it are undone (what was told for them holds when they are done again)."})
     static void back() {
         RoadHouse x = cells(2, "601(0,1)=1 604(0,300)=1 619(0,0,1)=1 605(0,1,40)=1 607(1)=1 621()=0 605(0,2,30)=1 606(0,3,0)=1 617(0,2,0)=1 607(2)=3 608(0)=170 608(1)=200 609()=0 612(0,1)=200 620(2)=301 611(0)=100 611(1)=200 623(3)=22 624(0,2)=1000");
         Script.then(x, "604(1,0)=1 610()=1 622(0)=1 610()=1 608(0)=240 608(1)=100 612(0,1)=100 620(0)=101 620(1)=-1 611(0)=0 611(1)=0 623(2)=-1 624(0,2)=-1 618(0,0)=-1 605(1,1,5)=0 607(2)=3 608(0)=170 608(1)=200 611(0)=100 620(2)=301 618(0,2)=170 610()=1");
@@ -166,6 +181,20 @@ public final class CarsSentencesTest {
     @Says("610: THE THEOREM.")
     static void kept() {
         Script.then(cells(3, "601(0,1)=1 601(1,2)=1 601(2,0)=1 604(0,900)=1 604(1,1000)=1 605(2,3,100000)=1 610()=1"), "607(50)=50 610()=1 604(1,0)=1 610()=1 621()=0 607(9)=59 610()=1 622(0)=1 610()=1");
+    }
+
+    @Says("622: False: none such.")
+    static void backNone() {
+        Script.then(cells(1, "622(0)=0 622(-1)=0 604(0,5)=1 621()=0 604(0,7)=1 622(1)=0 622(-1)=0 622(MIN)=0 622(MAX)=0 608(0)=7 622(0)=1 608(0)=5 622(4)=0 608(0)=5"), "610()=1");
+    }
+
+    @Says("621: All that steps and put() change, and what rules held, is kept (but not settings, lines' comings, joins, shares, rules themselves, measures)")
+    static void whatIsKept() {
+        // kept before there was anything else: a signal, comings, joins, shares, rules, measures hold all the same
+        RoadHouse x = cells(4, "604(0,300)=1 621()=0 606(3,1,0)=1 605(3,2,30)=1 601(0,1)=1 601(0,2)=1 602(0,1,1,4)=1 603(1,0,3)=1 619(0,250,2)=1 617(0,1,0)=1 615(2,1)=0 616(2,1,950)=0");
+        Script.then(x, "607(2)=2 622(0)=1 607(0)=0 608(0)=300 608(1)=0 620(0)=-1 618(0,0)=-1 607(1)=1 612(0,1)=25 612(0,2)=50 620(0)=102 618(0,2)=225 607(1)=2 608(3)=30 622(0)=1 607(2)=2 608(3)=30 602(0,1,1,4)=1 615(2,0)=1 616(2,0,0)=950 610()=1");
+        // the rules that are there now, and the order in which it takes
+        Script.then(x, "619(1,0,1)=1 622(0)=1 607(2)=2 620(0)=102 620(1)=201 620(2)=-1");
     }
 
     public static void main(String[] args) {

@@ -259,7 +259,7 @@ public final class ContractSentencesTest {
         Script.then(items("x=1", "702(0,7)=1 703(0,0,0,0)=0 704(0,0,0)=1 707(0,1)=0 712(-1,1)=0 712(2,1)=0 712(0,0)=0 712(1,1001)=0 712(1001,1001)=0 712(-1,-1)=0 707(0,1)=0 712(0,1)=1 712(1000,1000)=1 707(0,1)=7 707(0,4)=0 712(1,2)=1 707(0,1)=3 712(3,2)=0"), "707(0,1)=3 702(0,-7)=1 707(0,1)=0 707(0,4)=-7 702(0,1)=1 712(1,1)=1 707(0,1)=1 702(0,0)=1 707(0,1)=0");
     }
 
-    @Says({"713: What was kept up to a month, less what came back up to it.", "713: BAD: none such.", "714: All kept up to a month comes back in it, as much as it will be (also of entries that come later): how much that is now.", "714: BAD: no such month; a month (any) was told already.", "All that was kept up to some month comes BACK in it, once."})
+    @Says({"714: All kept up to a month comes back in it, as much as it will be (also of entries that come later): how much that is now.", "714: BAD: no such month; a month (any) was told already.", "All that was kept up to some month comes BACK in it, once."})
     static void back() {
         RoadHouse x = items("x=1", "702(0,10)=1 703(0,0,0,0)=0 704(0,0,0)=1 704(0,0,5)=1 704(0,0,11)=1 712(1,2)=1 713(-1)=-1 713(12)=-1 713(0)=5 713(4)=5 713(5)=10 713(11)=15 714(-1)=-1 714(12)=-1 714(5)=10 714(5)=-1 714(6)=-1 714(-1)=-1 713(4)=5 713(5)=0 713(10)=0 713(11)=5");
         Script.then(x, "707(5,3)=10 707(4,3)=0 707(6,3)=0 707(5,4)=15 704(0,0,4)=1 707(5,3)=15 713(5)=0 713(4)=10 713(11)=5 716(11)=35 720(3)=15 720(1)=20");
@@ -359,6 +359,11 @@ public final class ContractSentencesTest {
         billIs(y, "x:-100=-1000;");
         Script.then(x, "719(0,-10,0)=3 702(0,1)=1");
         billIs(x, "x:-20=-20;abcdefgh:" + 9999L * 9999 * 9999 * 9999 * 100 + "=" + 9999L * 9999 * 9999 * 9999 * 100 * -9 + ";");
+    }
+
+    @Says({"713: What was kept up to a month, less what came back up to it.", "713: BAD: none such."})
+    static void stillKept() {
+        Script.then(items("x=1", "713(0)=0 713(-1)=-1 713(12)=-1 713(MIN)=-1 702(0,8)=1 703(0,0,0,0)=0 704(0,0,1)=1 704(0,0,2)=1 704(0,0,11)=1 712(1,4)=1 713(0)=0 713(1)=2 713(2)=4 713(10)=4 713(11)=6 714(2)=4 713(0)=0 713(1)=2 713(2)=0"), "713(10)=0 713(11)=2 713(12)=-1 712(1,2)=1 713(1)=4 713(2)=0 713(11)=4");
     }
 
     public static void main(String[] args) {

@@ -16,7 +16,7 @@ public final class EarthSentencesTest {
             + " 100(1,0,0,0)=0 100(1000000,3,11,100000)=1 100(MIN,0,0,0)=-1 6*100(1,0,0,0)=2+# 100(1,0,0,0)=-1 100(1,0,0,0)=-1 115(100000,0)=1000007");
     }
 
-    @Says({"100: The plan is gone (so with every call of cut, fill, swell, fits, way, bar, borrow, most that is not refused, also if it changes nothing).", "112: or something was changed."})
+    @Says({"100: The plan is gone (so with every call of cut, fill, swell, fits, way, bar, borrow, most that is not refused, also if it changes nothing)."})
     static void planGone() {
         Script.then(planned(), "100(0,0,0,0)=-1 101(0,0,0)=-1 102(4,1,1)=0 103(0,1,1)=0 104(-1,0,0)=-1 105(1,0,0)=0 106(-1,0)=-1 107(12,0)=0 110(0)=50 116()=0 108(1)!state 110(0)=50");
         // told as it was before
@@ -24,9 +24,7 @@ public final class EarthSentencesTest {
         String[] calls = {"100(1,0,0,0)=1", "101(1,0,0)=1", "102(0,1,1)=1", "102(3,1,1)=1", "103(0,0,1)=1", "103(3,0,0)=1", "104(0,0,0)=1", "105(0,0,0)=1", "106(0,0)=1", "107(0,10000000)=1"};
         for (String call : calls) {
             Script.then(planned(), call + " 110(0)=-1 109(0,0,0)=-1 111(0,0,0)=-1 113(0,0)=-1 114(11,0,0)=-1 115(5,2)=-1 116()=-1 117(0,0)=-1 108(99)=0 116()=0");
-            Script.then(planned(), "107(11,9)=1 108(2)=1 112(0)=0 " + call + " 112(0)=-1");
         }
-        Script.then(planned(), "107(11,9)=1 108(2)=1 100(0,0,0,0)=-1 101(0,0,0)=-1 102(4,1,1)=0 103(0,1,1)=0 104(-1,0,0)=-1 105(1,0,0)=0 106(-1,0)=-1 107(12,0)=0 108(1)!state 112(0)=0");
     }
 
     @Says({"101: BAD: none such, as above; there are 8.", "FILLS (at most 8)"})
@@ -188,6 +186,15 @@ public final class EarthSentencesTest {
     @Says("117: BAD: no plan, none such.")
     static void level() {
         Script.then(planned(), "117(-1,0)=-1 117(1,0)=-1 117(0,-1)=-1 117(0,2)=-1 117(0,0)=0 117(0,1)=10 102(0,3,2)=1 117(0,0)=-1 117(0,1)=-1 108(2)=0 117(0,0)=5 117(0,1)=15");
+    }
+
+    @Says("112: BAD: none such; the last run was not 1, or something was changed.")
+    static void clashGone() {
+        String[] calls = {"100(1,0,0,0)=1", "101(1,0,0)=1", "102(0,1,1)=1", "103(0,0,1)=1", "104(0,0,0)=1", "105(0,0,0)=1", "106(0,0)=1", "107(11,9)=1"};
+        for (String call : calls) {
+            Script.then(planned(), "107(11,9)=1 108(2)=1 112(0)=0 " + call + " 112(0)=-1");
+        }
+        Script.then(planned(), "107(11,9)=1 108(2)=1 100(0,0,0,0)=-1 101(0,0,0)=-1 102(4,1,1)=0 103(0,1,1)=0 104(-1,0,0)=-1 105(1,0,0)=0 106(-1,0)=-1 107(12,0)=0 108(1)!state 112(0)=0 112(1)=-1 112(-1)=-1");
     }
 
     public static void main(String[] args) {

@@ -133,7 +133,7 @@ public final class SignalsSentencesTest {
         reads("A1-4294967299", -4);
     }
 
-    @Says({"505: (if it ends too early, or there are 3 plans, the one behind the last", "There are at most 3 plans.", "506: How many plans there are."})
+    @Says({"505: (if it ends too early, or there are 3 plans, the one behind the last", "There are at most 3 plans."})
     static void threePlans() {
         Script.then(plan(1, "A1-1"), "506()=1 504'A1-1;A2-2' 505()=2 504'A1-1' 505()=1 506()=3 504'A1-1' 505()=-5 506()=3 505()=-1 504'A1-1;A1-1' 505()=-10 504'A1-B' 505()=-4 504'A1' 505()=-3 506()=3 508(2,1)=1 508(3,2)=0");
         // a plan too many leaves all that was proved and done
@@ -230,7 +230,7 @@ public final class SignalsSentencesTest {
         Script.then(plan(3, "A1-1;BC1-1"), "501(1,2,0)=1 502(0,2)=1 509()=1");
     }
 
-    @Says({"512: The proof over all states, at most so many (1 .. 400): 1 all were found, and there is no fault; 0 there is one: the first that is met; 2 there are more.", "512: BAD: another number, no plan: what was proved is gone.", "513: How many states were found (0 without a proof)."})
+    @Says({"512: The proof over all states, at most so many (1 .. 400): 1 all were found, and there is no fault; 0 there is one: the first that is met; 2 there are more.", "512: BAD: another number, no plan: what was proved is gone."})
     static void prove() {
         Script.on("512(400)=-1 512(1)=-1 513()=0");
         Script.then(plan(1, "A1-1"), "512(0)=-1 512(401)=-1 512(-1)=-1 513()=0 512(400)=1 513()=32 512(32)=1 513()=32 512(31)=2 513()=31 512(1)=2 513()=1 512(401)=-1 513()=0 512(32)=1 517()=1 512(0)=-1 513()=0 517()=0 515(0)=-2 518(0)=0");
@@ -247,16 +247,40 @@ public final class SignalsSentencesTest {
         Script.then(plan(2, "A2-2;B1-1"), "502(0,3)=1 512(400)=0 514(0,0)=0 514(0,3)=1 514(0,6)=0 514(1,0)=0 514(1,2)=1 514(1,3)=2 514(1,6)=3 514(2,0)=-1 502(0,1)=1 512(400)=1 514(0,0)=-1 512(1)=2 514(0,0)=-1");
     }
 
-    @Says({"515: of all states in which it does, as many as there can be until it does not", "515: 0: it never waits; - 1: without end.", "515: NONE: the last proof was not 1, no such group.", "516: The k-th group that can wait without end.", "516: BAD: none such, or the last proof was not 1.", "517: Whether the last proof was 1 and nobody can wait without end."})
-    static void waits() {
-        Script.then(plan(2, "A1-31"), "515(0)=-2 516(0)=-1 517()=0 512(400)=1 515(0)=0 515(1)=-1 515(2)=-2 515(-1)=-2 516(0)=1 516(1)=-1 516(-1)=-1 517()=0 512(9)=2 515(1)=-2 516(0)=-1 517()=0");
+    @Says({"515: of all states in which it does, as many as there can be until it does not", "515: 0: it never waits; - 1: without end.", "515: NONE: the last proof was not 1, no such group."})
+    static void longest() {
+        Script.then(plan(2, "A1-31"), "515(0)=-2 512(400)=1 515(0)=0 515(1)=-1 515(2)=-2 515(-1)=-2 515(MAX)=-2 512(9)=2 515(1)=-2 515(0)=-2 512(0)=-1 515(0)=-2");
         // a call is answered in its own second; then in the next one; then three seconds behind it
-        Script.then(plan(2, "A1-1;B1-1"), "512(400)=1 515(0)=0 515(1)=0 517()=1 516(0)=-1");
-        Script.then(plan(2, "A2-2;B1-1"), "512(400)=1 515(0)=0 515(1)=1 517()=1");
-        Script.then(plan(2, "A4-4;B1-1"), "512(400)=1 515(0)=0 515(1)=3 517()=1 502(0,5)=1 512(400)=0 515(1)=-2 517()=0");
+        Script.then(plan(2, "A1-1;B1-1"), "512(400)=1 515(0)=0 515(1)=0");
+        Script.then(plan(2, "A2-2;B1-1"), "512(400)=1 515(0)=0 515(1)=1");
+        Script.then(plan(2, "A4-4;B1-1"), "512(400)=1 515(0)=0 515(1)=3 502(0,5)=1 512(400)=0 515(1)=-2");
         // as long as one plan is wanted behind the other one, each begins with A: B waits without end; by one of them alone it does not
-        Script.then(plan(2, "A4-4;B1-1"), "504'A4-4;B1-1' 505()=2 512(400)=1 515(0)=0 515(1)=-1 516(0)=1 517()=0");
-        Script.then(plan(3, "B1-1"), "512(400)=1 516(0)=0 516(1)=2 516(2)=-1 515(1)=0 517()=0");
+        Script.then(plan(2, "A4-4;B1-1"), "504'A4-4;B1-1' 505()=2 512(400)=1 515(0)=0 515(1)=-1");
+    }
+
+    @Says({"516: The k-th group that can wait without end.", "516: BAD: none such, or the last proof was not 1."})
+    static void ring() {
+        Script.then(plan(3, "B1-1"), "516(0)=-1 512(400)=1 516(0)=0 516(1)=2 516(2)=-1 516(-1)=-1 516(MAX)=-1 512(9)=2 516(0)=-1 512(400)=1 516(1)=2 512(0)=-1 516(0)=-1");
+        Script.then(plan(2, "A1-1;B1-1"), "512(400)=1 516(0)=-1 516(1)=-1");
+        Script.then(plan(2, "A4-4;B1-1"), "504'A4-4;B1-1' 505()=2 512(400)=1 516(0)=1 516(1)=-1 502(0,5)=1 512(400)=0 516(0)=-1");
+    }
+
+    @Says("517: Whether the last proof was 1 and nobody can wait without end.")
+    static void answered() {
+        Script.then(plan(2, "A4-4;B1-1"), "517()=0 512(400)=1 517()=1 512(3)=2 517()=0 512(400)=1 517()=1 502(0,5)=1 517()=0 512(400)=0 517()=0");
+        Script.then(plan(2, "A1-31"), "512(400)=1 517()=0");
+        Script.then(plan(1, "A1-1"), "512(400)=1 517()=1 512(401)=-1 517()=0");
+    }
+
+    @Says("513: How many states were found (0 without a proof).")
+    static void statesFound() {
+        Script.on("513()=0 504'A1-1' 505()=1 513()=0 512(400)=1 513()=32 512(7)=2 513()=7 509()=0 513()=7 502(0,1)=1 513()=0 512(32)=1 513()=32 512(0)=-1 513()=0 512(400)=1 500(1)=0 513()=0");
+        Script.then(plan(2, "AB1-1"), "501(0,1,0)=1 513()=0 512(400)=0 513()=1");
+    }
+
+    @Says("506: How many plans there are.")
+    static void program() {
+        Script.on("506()=0 504'A1-1' 506()=0 505()=1 506()=1 505()=-1 506()=1 504'A1-2;A1-2' 505()=2 506()=2 504'A1-1' 505()=1 506()=3 504'A1-1' 505()=-5 506()=3 502(0,1)=1 506()=3 500(0)!argument 506()=3 500(1)=0 506()=0");
     }
 
     @Says({"518: for so many seconds more (0 .. 100)", "518: (0: whether the state that it has is one.)", "518: False also: no plan, no proof, another number.", "518: in states that were found (also by a proof that ended otherwise than with 1), without faults: it is not changed"})

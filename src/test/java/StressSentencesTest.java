@@ -116,9 +116,14 @@ public final class StressSentencesTest {
         Script.then(lines(some()), "410(0,0)=-1 410(5,0)=-1 410(-1,0)=-1 410(1,-1)=-1 410(1,24)=-1 410(1,12)=10 410(4,12)=10 406(3,110,5)=1 410(3,12)=10 410(4,12)=5 410(4,0)=1 406(4,10,1)=1 410(4,12)=5");
     }
 
-    @Says({"411: The row comes n times in all, 1 .. 1,000,000.", "411: False: none such.", "412: The sum of the shares of the classes 0 .. 3, as often as the row comes, by parts.", "412: BAD: no such part."})
+    @Says({"411: The row comes n times in all, 1 .. 1,000,000.", "411: False: none such."})
     static void repeats() {
-        Script.then(lines(some()), "411(0)=0 411(1000001)=0 411(-1)=0 412(0)=1 412(12)=10 411(7)=1 412(0)=7 412(12)=10 411(1000001)=0 412(0)=7 411(1000000)=1 412(0)=100000 412(12)=1 412(-1)=-1 412(24)=-1 412(23)=0 411(1)=1 412(0)=1 406(3,110,5)=1 412(0)=1 412(12)=5 406(4,10,1)=1 412(0)=1 412(12)=5");
+        Script.then(lines(some()), "411(0)=0 411(1000001)=0 411(-1)=0 411(MIN)=0 412(0)=1 412(12)=10 411(7)=1 412(0)=7 412(12)=10 411(1000001)=0 411(0)=0 412(0)=7 411(1000000)=1 412(0)=100000 412(12)=1 411(1)=1 412(0)=1 412(12)=10 411(4)=1 409(0,0)=1 410(4,0)=1");
+    }
+
+    @Says({"412: The sum of the shares of the classes 0 .. 3, as often as the row comes, by parts.", "412: BAD: no such part."})
+    static void total() {
+        Script.then(lines(some()), "412(-1)=-1 412(24)=-1 412(MAX)=-1 412(23)=0 412(11)=0 412(0)=1 412(12)=10 406(3,110,5)=1 412(0)=1 412(12)=5 406(4,10,1)=1 412(0)=1 412(12)=5 411(3)=1 412(0)=3 412(12)=5 411(5)=1 412(0)=1 412(12)=1 418(0)=1 412(0)=0 412(12)=1");
     }
 
     @Says({"413: The last whole year, 0 .. 100,000, up to which the share of a class, if the row comes so often per year (1 .. 1,000,000,000), is below 1.", "413: BAD: none such."})
@@ -198,7 +203,7 @@ public final class StressSentencesTest {
         Script.due("not within 100 years", slow.crack(1, 7.2447, 1), -1);
     }
 
-    @Says({"P4: Other sizes and steps than those that were told last take the last told ones' place (also when 100 years are not enough).", "P5: -1: nothing was; no such year.", "P5: The size behind so many years (0 .. 100), by what was told to crack() last, and the row now."})
+    @Says({"P5: -1: nothing was; no such year.", "P5: The size behind so many years (0 .. 100), by what was told to crack() last, and the row now."})
     static void crackAt() {
         RoadHouse x = Script.on("400(0)=1 400(1000000)=1");
         Script.due("nothing told", x.crackAt(0), -1.0);
@@ -221,6 +226,24 @@ public final class StressSentencesTest {
         Script.due("it is told all the same", x.crackAt(100), 7.0);
         Script.then(x, "400(0)=1 400(1000000)=1");
         Script.due("two steps a year", x.crackAt(1), 7 * 1.25 * 1.25);
+    }
+
+    @Says("P4: Other sizes and steps than those that were told last take the last told ones' place (also when 100 years are not enough).")
+    static void crackTold() {
+        RoadHouse x = Script.on("400(0)=1 400(1000000)=1");
+        Script.due("crack", x.crack(4, 5, 1), 1);
+        Script.due("as told", x.crackAt(0), 4.0);
+        Script.due("crack", x.crack(8, 9, 2), 1);
+        Script.due("as told", x.crackAt(0), 8.0);
+        Script.due("by two steps", x.crackAt(1), 12.5);
+        Script.then(x, "418(0)=1");
+        Script.due("not within 100 years", x.crack(3, 4, 1), -1);
+        Script.due("as told", x.crackAt(0), 3.0);
+        Script.then(x, "400(0)=1 400(1000000)=1");
+        Script.due("by one step", x.crackAt(1), 4.5);
+        Script.due("refused", x.crack(9, 8, 5), -1);
+        Script.due("refused", x.crack(9, 10, 101), -1);
+        Script.due("as told before", x.crackAt(1), 4.5);
     }
 
     public static void main(String[] args) {

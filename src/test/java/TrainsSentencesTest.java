@@ -23,7 +23,20 @@ public final class TrainsSentencesTest {
         Script.on("300(400,1,1)=1 300(401,1,1)=0");
     }
 
-    @Says({"300: What was run is gone.", "302: What was run is gone.", "304: its worst is at hand then, until a corner or an axle comes, the row is cleared, or something is run"})
+    @Says("300: What was run is gone.")
+    static void runGoneByCorner() {
+        Script.then(rising(), "304(0,0)=4 305(0)=84 300(10,0,1)=0 300(401,0,1)=0 300(11,0,0)=0 305(0)=84 321()=1 300(11,0,1)=1 305(0)=-1 305(-1)=-2 306(0)=-1 308(1,0)=-1 321()=0");
+        Script.then(rising(), "317(0,0)=4 306(4)=0 300(11,0,1)=1 305(-1)=-2 306(4)=-1");
+    }
+
+    @Says("302: What was run is gone.")
+    static void runGoneByAxle() {
+        Script.then(rising(), "304(0,0)=4 305(0)=84 302(1,0,1)=0 302(0,0,1)=0 302(0,61,1)=0 302(0,5,-1)=0 305(0)=84 321()=1 302(0,5,0)=1 305(0)=-1 305(-1)=-2 306(0)=-1 321()=0");
+        // of another train, too
+        Script.then(rising(), "301()=1 304(0,0)=4 305(0)=84 302(1,0,0)=1 305(0)=-1 306(2)=-1");
+    }
+
+    @Says({"304: its worst is at hand then, until a corner or an axle comes, the row is cleared, or something is run"})
     static void runGone() {
         Script.then(rising(), "304(0,0)=4 300(10,0,1)=0 302(0,0,1)=0 302(0,61,1)=0 305(0)=84 321()=1 300(11,0,1)=1 305(0)=-1 305(-1)=-2 306(0)=-1 321()=0 304(0,0)=6 305(0)=84 302(0,1,0)=1 305(0)=-1 321()=0 304(0,0)=8 305(0)=84 301()=1 307(1,1)=0 305(0)=84"
             + " 302(1,0,3)=1 305(0)=-1 304(0,0)=8 304(1,0)=3 305(0)=30 304(2,0)=-1 305(0)=30 306(2)=1 322()=0 305(0)=-1 306(0)=-1");
