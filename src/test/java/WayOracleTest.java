@@ -467,7 +467,7 @@ public final class WayOracleTest {
 
     public static void main(String[] args) {
         Check c = new Check("WayOracleTest");
-        int runs = args.length > 0 ? Integer.parseInt(args[0]) : 30;
+        int runs = args.length > 0 ? Integer.parseInt(args[0]) : 150;
         int[] told = new int[5];
         for (int run = 0; run < runs; run++) {
             Random r = new Random(run);
