@@ -1609,10 +1609,10 @@ public final class RoadHouse {
             reached[start] = start;
             queue[0] = start;
             int end = 1;
-            for (int at = 0; at < end && reached[goal] < 0; at++) {
+            for (int at = 0; at < end && at < PIPES && reached[goal] < 0; at++) {
                 int a = queue[at];
                 for (int b = 0; b < PIPES; b++) {
-                    if (reached[b] < 0 && pipe[a][b] > 0) {
+                    if (reached[b] < 0 && pipe[a][b] > 0 && end < PIPES) {
                         reached[b] = a;
                         queue[end] = b;
                         end++;
@@ -4044,7 +4044,7 @@ public final class RoadHouse {
             Arrays.fill(slot, 0);
             setFirst(probe);
             addState(pack(probe), -1, 0);
-            for (int s = 0; s < states; s++) {
+            for (int s = 0; s < states && s < MOST_STATES; s++) {
                 for (int event = 0; event < 1 + groups + plans; event++) {
                     unpack(state[s], probe);
                     int fault = goOn(probe, event);
